@@ -39,6 +39,9 @@ public final class QuietChannels {
     private static final int[] TIMES_A = {1, 1, 2, 1, 3, 2};
     private static final int[] TIMES_B = {1, -1, -1, 1, -2, 1};
     private static final int[] TIMES_C = {0, 0, 0, -1, 0, -2};
+    /** The same without signs, as LEVELS count them; a's are never below 0. */
+    private static final int[] WEIGHT_B = {1, 1, 1, 1, 2, 1};
+    private static final int[] WEIGHT_C = {0, 0, 0, 1, 0, 2};
     /** The place of each sort's ORDER, both among the LOSSES and among the bits of orders. */
     private static final int[] ORDER_PLACE = {0, 0, 1, 1, 2, 2};
 
@@ -606,7 +609,8 @@ public final class QuietChannels {
     }
 
     public int leastBand() {
-        for (int band = BAND_LEAST; band <= BAND_MOST; band++) {
+        // Below a USER's LOW nothing is left for it, and no SEARCH finds.
+        for (int band = Math.max(BAND_LEAST, scene.greatestLow()); band <= BAND_MOST; band++) {
             trial.copyFrom(scene);
             trial.narrowTo(band);
             if (search.seek(trial, trial.allUsers()) == FOUND) {
@@ -734,6 +738,14 @@ public final class QuietChannels {
             }
         }
 
+        int greatestLow() {
+            int greatest = 0;
+            for (int user = 0; user < users; user++) {
+                greatest = Math.max(greatest, low[user]);
+            }
+            return greatest;
+        }
+
         /** No USERS yet, but all that a ROW's USERS have beside a CHANNEL; without LOSS all is HEARD. */
         void beginRow(int rowOrders, int rowGuard, int rowSpace) {
             users = 0;
@@ -830,10 +842,12 @@ public final class QuietChannels {
 
         int crowdedCouples() {
             int couples = 0;
-            for (int user = 0; user < users; user++) {
-                couples += Integer.bitCount(crowdedBy(user));
+            for (int one = 0; one < users; one++) {
+                for (int other = one + 1; other < users; other++) {
+                    couples += crowd(one, other) ? 1 : 0;
+                }
             }
-            return couples / 2;
+            return couples;
         }
 
         int nearestOfSite(int user) {
@@ -854,6 +868,19 @@ public final class QuietChannels {
         boolean wantsSort(int sort) {
             return (orders >> ORDER_PLACE[sort] & 1) != 0;
         }
+
+        /** Bit c: CHANNEL c is no farther than guard from one that a USER has. */
+        long guardedChannels() {
+            long bits = 0;
+            for (int user = 0; user < users; user++) {
+                int first = Math.max(1, channel[user] - guard);
+                int last = channel[user] == 0 ? 0 : Math.min(BAND_MOST, channel[user] + guard);
+                for (int number = first; number <= last; number++) {
+                    bits |= 1L << number;
+                }
+            }
+            return bits;
+        }
     }
 
     /** The PRODUCTS of a scene, in their order. */
@@ -862,6 +889,11 @@ public final class QuietChannels {
         int size = 0;
         /** All HITS of all PRODUCTS in the list. */
         int strikes = 0;
+        /** The USERS with CHANNELS of the SITE that is at work. */
+        private final int[] crew = new int[ROW_MOST];
+        private int crewSize = 0;
+        private long guarded = 0;
+        private boolean untilStrike = false;
 
         void fill(Scene scene) {
             gather(scene, false);
@@ -880,37 +912,47 @@ public final class QuietChannels {
             return strikes == 0;
         }
 
-        /** Lists all, or no further than the first that HITS: most LOOKS of a SEARCH end early by that. */
-        private void gather(Scene scene, boolean untilStrike) {
+        /** Lists all; or only what is near some USER, up to the first that HITS: so a SEARCH's LOOKS are cheap. */
+        private void gather(Scene scene, boolean onlyFirstStrike) {
             size = 0;
             strikes = 0;
+            untilStrike = onlyFirstStrike;
+            guarded = scene.guardedChannels();
             for (int site = 0; site < SITES; site++) {
+                gatherCrew(scene, site);
                 for (int sort = 0; sort < SORTS; sort++) {
                     if (scene.wantsSort(sort)) {
-                        gatherSort(scene, site, sort, untilStrike);
+                        gatherSort(scene, sort);
                     }
                 }
             }
         }
 
+        private void gatherCrew(Scene scene, int site) {
+            crewSize = 0;
+            for (int user = 0; user < scene.users && crewSize < ROW_MOST; user++) {
+                if (scene.channel[user] > 0 && scene.site[user] == site) {
+                    crew[crewSize] = user;
+                    crewSize++;
+                }
+            }
+        }
+
         /** Where a and b are alike in a sort, only a the lesser number counts: the other way is the same sum. */
-        private void gatherSort(Scene scene, int site, int sort, boolean untilStrike) {
+        private void gatherSort(Scene scene, int sort) {
             boolean alike = TIMES_A[sort] == TIMES_B[sort];
-            int thirds = TIMES_C[sort] == 0 ? 0 : scene.users;
-            for (int a = 0; a < scene.users; a++) {
-                for (int b = alike ? a + 1 : 0; b < scene.users; b++) {
+            int thirds = TIMES_C[sort] == 0 ? 0 : crewSize;
+            for (int i = 0; i < crewSize; i++) {
+                for (int j = alike ? i + 1 : 0; j < crewSize; j++) {
                     if (untilStrike && strikes > 0) {
                         return;
                     }
-                    if (a == b || !scene.isTunedAt(a, site) || !scene.isTunedAt(b, site)) {
-                        continue;
+                    if (i != j && thirds == 0) {
+                        add(scene, sort, crew[i], crew[j], NOTHING);
                     }
-                    if (thirds == 0) {
-                        add(scene, sort, a, b, NOTHING);
-                    }
-                    for (int c = 0; c < thirds; c++) {
-                        if (c != a && c != b && scene.isTunedAt(c, site)) {
-                            add(scene, sort, a, b, c);
+                    for (int k = 0; k < thirds; k++) {
+                        if (i != j && k != i && k != j) {
+                            add(scene, sort, crew[i], crew[j], crew[k]);
                         }
                     }
                 }
@@ -919,16 +961,14 @@ public final class QuietChannels {
 
         /** Adds what is a PRODUCT; a c below 0: there is none in it. */
         private void add(Scene scene, int sort, int a, int b, int c) {
-            int shared = scene.slotBits[a] & scene.slotBits[b];
-            int channel = TIMES_A[sort] * scene.channel[a] + TIMES_B[sort] * scene.channel[b];
-            int level = Math.abs(TIMES_A[sort]) * scene.strength[a] + Math.abs(TIMES_B[sort]) * scene.strength[b]
-                    - scene.loss[ORDER_PLACE[sort]];
-            if (c >= 0) {
-                shared &= scene.slotBits[c];
-                channel += TIMES_C[sort] * scene.channel[c];
-                level += Math.abs(TIMES_C[sort]) * scene.strength[c];
+            int channel = TIMES_A[sort] * scene.channel[a] + TIMES_B[sort] * scene.channel[b]
+                    + (c < 0 ? 0 : TIMES_C[sort] * scene.channel[c]);
+            if (channel < 1 || channel > scene.band || size >= PRODUCTS_MOST) {
+                return;
             }
-            if (shared == 0 || channel < 1 || channel > scene.band || size >= PRODUCTS_MOST) {
+            boolean near = (guarded >> channel & 1L) != 0;
+            int shared = scene.slotBits[a] & scene.slotBits[b] & (c < 0 ? SLOTS_MOST : scene.slotBits[c]);
+            if (shared == 0 || untilStrike && !near) {
                 return;
             }
             column[SORT][size] = sort;
@@ -936,17 +976,22 @@ public final class QuietChannels {
             column[B][size] = b;
             column[C][size] = c;
             column[CHANNEL][size] = channel;
-            column[LEVEL][size] = level;
+            column[LEVEL][size] = levelOf(scene, sort, a, b, c);
             column[SHARED][size] = shared;
-            int struck = 0;
-            for (int user = 0; user < scene.users; user++) {
+            column[STRUCK][size] = 0;
+            for (int user = 0; user < scene.users && near; user++) {
                 if (Math.abs(scene.channel[user] - channel) <= scene.guard && mayStrike(scene, size, user)) {
-                    struck |= 1 << user;
+                    column[STRUCK][size] |= 1 << user;
                     strikes++;
                 }
             }
-            column[STRUCK][size] = struck;
             size++;
+        }
+
+        private int levelOf(Scene scene, int sort, int a, int b, int c) {
+            int powers = TIMES_A[sort] * scene.strength[a] + WEIGHT_B[sort] * scene.strength[b]
+                    + (c < 0 ? 0 : WEIGHT_C[sort] * scene.strength[c]);
+            return powers - scene.loss[ORDER_PLACE[sort]];
         }
 
         /** Whether the k-th PRODUCT would HIT a USER, were guard great enough; no LOSS is below 0, so it is HEARD. */

@@ -18,8 +18,14 @@ public final class ModelTest {
     private final Model model = new Model();
     private final List<String> log = new ArrayList<>();
 
+    /** A loud run has many products that hit, a bare one few channels that are fixed and so long searches. */
+    private final boolean loud;
+    private final boolean bare;
+
     private ModelTest(long seed) {
         random = new Random(seed);
+        loud = seed % 3 != 0;
+        bare = seed % 4 == 1;
     }
 
     static int ask(QuietChannels p, String name, int[] x) {
@@ -135,8 +141,8 @@ public final class ModelTest {
             case "bySort1": return from(0, 2);
             case "hitBy1": return from(0, 5);
             case "freeAt1": return from(0, 25);
-            case "power1": return from(0, 30);
-            case "slots1": return from(1, 255);
+            case "power1": return from(loud ? 8 : 0, 30);
+            case "slots1": return loud ? 255 - (1 << from(0, 7)) : from(1, 255);
             case "tune1": return oneOf(4) ? 0 : from(1, model.world.band);
             case "ifTuned1": return from(0, model.world.band);
             case "fits1": case "block0": case "blocked0": return from(1, model.world.band);
@@ -161,21 +167,22 @@ public final class ModelTest {
             band = beyond(4, oneOf(2) ? 16 : 60, wild);
             text.append("band").append(blank()).append(band).append(";");
         }
-        int users = oneOf(4) ? from(0, 3) : from(3, wild && oneOf(8) ? 7 : 6);
+        int users = oneOf(loud ? 9 : 4) ? from(0, 3) : from(3, wild && oneOf(8) ? 7 : 6);
         List<String> lines = new ArrayList<>();
         addSettings(lines, wild);
-        boolean oneSite = oneOf(2);
+        boolean oneSite = loud || oneOf(2);
         String names = "abcdefg";
         for (int i = 0; i < users; i++) {
             int low = oneOf(2) ? 1 : beyond(1, band, wild);
-            int high = low > band ? low : oneOf(2) ? band : from(low, band);
+            int high = low > band ? low : bare || oneOf(2) ? band : from(low, band);
             String name = oneOf(6) && wild ? "b" : "" + names.charAt(i);
-            lines.add("user " + name + " " + (oneSite ? 0 : beyond(0, 2, wild)) + " " + beyond(0, 30, wild) + " " + low
+            lines.add("user " + name + " " + (oneSite ? oneOf(6) ? 1 : 0 : beyond(0, 2, wild)) + " "
+                    + beyond(loud ? 10 : 0, 30, wild) + " " + low
                     + blank() + beyond(low, Math.max(low, high), wild));
-            if (!oneOf(3)) {
+            if (bare ? oneOf(6) : !oneOf(3)) {
                 lines.add("fixed " + name + blank() + beyond(1, band, wild));
             }
-            if (oneOf(4)) {
+            if (oneOf(loud ? 12 : 4)) {
                 lines.add("slots " + name + blank() + beyond(1, 255, wild));
             }
         }
@@ -196,8 +203,8 @@ public final class ModelTest {
     }
 
     private void addSettings(List<String> lines, boolean wild) {
-        if (oneOf(2)) {
-            lines.add("orders " + beyond(0, 7, wild));
+        if (loud || oneOf(2)) {
+            lines.add("orders " + beyond(loud ? 3 : 0, 7, wild));
         }
         if (oneOf(2)) {
             lines.add("guard " + beyond(0, oneOf(2) ? 1 : 5, wild));
@@ -206,7 +213,8 @@ public final class ModelTest {
             lines.add("space " + beyond(1, oneOf(2) ? 3 : 20, wild));
         }
         if (oneOf(2)) {
-            lines.add("loss " + beyond(0, 50, wild) + " " + beyond(0, 60, wild) + blank() + beyond(0, 99, wild));
+            int most = loud ? 40 : 99;
+            lines.add("loss " + beyond(0, most, wild) + " " + beyond(0, most, wild) + blank() + beyond(0, most, wild));
         }
         if (oneOf(3)) {
             lines.add("seed " + beyond(0, 99999, wild));
@@ -245,8 +253,34 @@ public final class ModelTest {
         compare("fault", 1);
     }
 
+    /** All that can be asked cheaply about one state; the program answers beyond its 512 calls as well. */
+    private void survey() {
+        int products = model.world.products().size();
+        for (int k = -1; k <= products; k++) {
+            for (int what = 0; what <= 6; what++) {
+                compare("product", k, what);
+            }
+        }
+        for (int k = 0; k < 18; k++) {
+            compare("bySort", k % 6, k / 6);
+        }
+        for (int user = -1; user <= model.world.users.size(); user++) {
+            for (String about : new String[] {"hits", "when", "clearance", "crowds", "nearest", "rank", "mostPower",
+                "turned"}) {
+                compare(about, user);
+            }
+            for (int k = 0; k < 4; k++) {
+                compare("hitBy", user, k);
+            }
+        }
+        for (String about : new String[] {"worst", "loudest", "left", "mostGuard", "mostSpace", "bestSwap"}) {
+            compare(about);
+        }
+    }
+
     private void run(int calls) {
         tell(someText(false));
+        survey();
         for (int i = 0; i < calls; i++) {
             String[] call = CALLS[random.nextInt(CALLS.length)].split(" ");
             int[] x = new int[Integer.parseInt(call[1])];
@@ -255,6 +289,7 @@ public final class ModelTest {
             }
             compare(call[0], x);
         }
+        survey();
     }
 
     private void readTexts(int texts) {
