@@ -149,6 +149,14 @@ public final class ChangeTest {
         x = Due.told("orders 0;user a 0 0 1 4;user b 0 0 1 9;user c 0 0 1 4;fixed a 5;fixed b 7;fixed c 6;");
         DUE.same("mend", x.mend(), 5);
         DUE.row("channels", Due.channels(x, 3), 1, 7, 2);
+        // c alone is one, a and b, who aren't in one slot, are two and the lesser number.
+        x = Due.told("orders 0;user a 0 0 1 9;user b 0 0 1 9;user c 0 0 1 9;user d 0 0 1 9;"
+                + "slots a 1;slots b 2;fixed a 5;fixed b 5;fixed c 5;");
+        DUE.same("mended", x.mended(), 4);
+        // All must go: each has the other's only CHANNEL.
+        x = Due.told("orders 0;user a 0 0 1 1;user b 0 0 2 2;fixed a 2;fixed b 1;");
+        DUE.same("mend", x.mend(), 3);
+        DUE.row("channels", Due.channels(x, 2), 1, 2);
         // Nothing is left for a at all.
         x = Due.told("orders 0;user a 0 0 1 4;block 1 4;fixed a 5;");
         DUE.same("mended", x.mended(), -2);
@@ -206,7 +214,7 @@ public final class ChangeTest {
         DUE.same("linked(2, 1)", x.linked(2, 1), 7);
         DUE.same("linked(1, 0)", x.linked(1, 0), 0);
         DUE.same("linked(0, 2)", x.linked(0, 2), -2);
-        for (int[] w : new int[][] {{0, 0}, {1, 1}, {2, 2}, {-1, 0}, {0, 3}, {3, 3}, {BIG, 0}, {0, SMALL}}) {
+        for (int[] w : new int[][] {{0, 0}, {1, 1}, {2, 2}, {-1, 0}, {0, -1}, {3, 0}, {0, 3}, {3, 3}, {BIG, 0}, {0, SMALL}}) {
             DUE.same("linked(" + w[0] + ", " + w[1] + ")", x.linked(w[0], w[1]), -1);
         }
     }

@@ -86,6 +86,12 @@ public final class PlanTest {
         DUE.same("quietest of one", x.quietest(2), 5);
         x.block(5);
         DUE.same("all are blocked", x.quietest(2), -2);
+        // a 1: 1 and 6 are 7; a 2 .. 5 hit: 4 and 6 are 10, and so on; the last of the stretch is best.
+        x = Due.told("orders 1;user a 0 3 4 5;user b 0 3 1 30;user c 0 3 1 30;fixed b 6;fixed c 10;");
+        DUE.row("ifTuned(0, ..)", new int[] {x.ifTuned(0, 4), x.ifTuned(0, 5)}, 3, 0);
+        DUE.same("the last of the stretch", x.quietest(0), 5);
+        x = Due.told("orders 1;user a 0 3 16 18;user b 0 3 1 30;user c 0 3 1 30;fixed b 6;fixed c 10;block 18 18;");
+        DUE.same("16 is hit, 17 isn't", x.quietest(0), 17);
         x = Due.told(SECOND + "block 1 1;");
         DUE.same("quietest of a, behind the blocked one", x.quietest(0), 2);
     }
@@ -94,6 +100,9 @@ public final class PlanTest {
         QuietChannels x = Due.told("orders 0;user a 0 0 1 2;user b 0 0 1 1;user c 0 0 1 30;fixed c 3;");
         DUE.row("planned", new int[] {x.planned(0), x.planned(1), x.planned(2)}, 2, 1, -2);
         DUE.same("nothing changes", x.count(6), 1);
+        x.tune(1, 1);
+        DUE.row("planned beside channel 1", new int[] {x.planned(0), x.planned(1)}, 2, -2);
+        x.tune(1, 0);
         x.tune(2, 2);
         DUE.row("planned", new int[] {x.planned(0), x.planned(1), x.planned(2)}, -2, -2, -2);
     }
@@ -112,6 +121,8 @@ public final class PlanTest {
         DUE.same("one user", Due.told("user a 0 0 1 1;").leastBand(), 4);
         DUE.same("LOW decides", Due.told("user a 0 0 17 30;fixed a 30;").leastBand(), 17);
         DUE.same("blocked ones count", Due.told("user a 0 0 17 30;block 17 20;").leastBand(), 21);
+        DUE.same("60", Due.told("band 60;user a 0 0 60 60;").leastBand(), 60);
+        DUE.same("60, behind blocked ones", Due.told("band 60;user b 0 0 1 2;user a 0 0 9 60;block 9 59;").leastBand(), 60);
         DUE.same("all blocked", Due.told("user a 0 0 17 20;block 17 20;").leastBand(), -2);
         // No two differences alike: the shortest ruler of five marks is 11 long.
         String five = "user a 0 9 1 30;user b 0 9 1 30;user c 0 9 1 30;user d 0 9 1 30;user e 0 9 1 30;";
@@ -139,7 +150,16 @@ public final class PlanTest {
             row[i] = Due.told(SECOND).grown(1, 0, 1, i);
         }
         DUE.row("orders 1", row, 1, 2, 4, 7, 10, 13, 16, 19, -2);
-        QuietChannels x = Due.told(SECOND);
+        QuietChannels x = Due.told("band 9;guard 5;space 20;orders 4;loss 99 99 99;user a 1 0 9 9;user b 2 0 9 9;"
+                + "fixed b 9;slots a 1;slots b 2;block 1 9;seed 9;");
+        for (int i = 0; i < 9; i++) {
+            row[i] = x.grown(1, 0, 1, i);
+        }
+        DUE.row("whatever the text tells", row, 1, 2, 4, 7, 10, 13, 16, 19, -2);
+        DUE.same("guard: 9 is 6 from 3 and 8 from 1", x.grown(1, 5, 1, 2), 9);
+        DUE.same("all orders", x.grown(7, 0, 1, 3), 12);
+        DUE.row("up to 60", new int[] {x.grown(1, 1, 10, 4), x.grown(1, 1, 10, 5), x.grown(1, 1, 10, 6)}, 47, 60, -2);
+        x = Due.told(SECOND);
         DUE.same("no orders, no space", x.grown(0, 0, 1, 7), 8);
         DUE.same("a ninth", x.grown(0, 0, 1, 8), -2);
         DUE.same("grown(MAX)", x.grown(0, 0, 1, BIG), -2);
@@ -169,11 +189,14 @@ public final class PlanTest {
         DUE.row("turned", new int[] {x.turned(0), x.turned(1), x.turned(2)}, 1, 1, 3);
         DUE.same("left", x.left(), 0);
         DUE.same("nothing changes", x.user(0, 1), 3);
+        DUE.same("left, asked first", Due.told("loss 6 0 0;" + SECOND).left(), 0);
+        DUE.same("turned, asked first", Due.told("loss 6 0 0;" + SECOND).turned(0), 2);
         // Without LOSS hits stay, as the worst one has no POWER left.
         x = Due.told("loss 0 0 0;" + SECOND);
         DUE.same("steps", x.turned(-1), 3);
         DUE.row("turned", new int[] {x.turned(0), x.turned(1), x.turned(2)}, 0, 3, 3);
         DUE.same("left", x.left(), 3);
+        DUE.same("left, asked first", Due.told("loss 0 0 0;" + SECOND).left(), 3);
         DUE.same("turned(3)", x.turned(3), -2);
         DUE.same("turned(-2)", x.turned(-2), -2);
         DUE.same("turned(MIN)", x.turned(SMALL), -2);
@@ -187,12 +210,22 @@ public final class PlanTest {
                 + "fixed a 4;fixed b 6;fixed c 10;fixed d 29;";
         QuietChannels x = Due.told(text);
         DUE.same("a with d", x.bestSwap(), 3);
+        DUE.same("as it was", x.products(2), 3);
         x.tune(3, 0);
         DUE.same("d has no channel", x.bestSwap(), -2);
         x = Due.told(text);
         x.tune(3, 16);
         // a on 16 is hit by b and c, 6 and 10; b on 16 makes none with 4 and 10: 6 times 1, and 3.
         DUE.same("b with d", x.bestSwap(), 9);
+        // Twice b less a is 1, which hits c of the other site; with a's 3 for c's 1 twice b less a hits again, with b's 2
+        // it is none.
+        x = Due.told("user a 0 9 1 30;user b 0 9 1 30;user c 1 9 1 30;link 0 1 0;fixed a 3;fixed b 2;fixed c 1;");
+        DUE.same("hits", x.products(2), 1);
+        DUE.same("b with c", x.bestSwap(), 8);
+        x = Due.told("user c 1 9 1 30;user a 0 9 1 30;user b 0 9 1 30;link 0 1 0;fixed a 3;fixed b 2;fixed c 1;");
+        DUE.same("c with b", x.bestSwap(), 2);
+        x = Due.told("user c 1 9 1 30;user b 0 9 1 30;user a 0 9 1 30;link 0 1 0;fixed a 3;fixed b 2;fixed c 1;");
+        DUE.same("c with b", x.bestSwap(), 1);
     }
 
     private static void spare() {
@@ -227,6 +260,10 @@ public final class PlanTest {
         DUE.same("5 + 3 is 1 too few", x.mostPower(0), 5);
         DUE.same("nothing changes", x.user(0, 1), 3);
         DUE.same("c's power is of no matter", x.mostPower(2), 30);
+        x.power(1, 8);
+        DUE.same("by 0 alone", x.mostPower(0), 0);
+        x.power(1, 9);
+        DUE.same("not by 0", x.mostPower(0), -2);
         x.power(0, 30);
         DUE.same("by no power of b", x.mostPower(1), -2);
         DUE.same("by no power of c", x.mostPower(2), -2);
@@ -276,6 +313,32 @@ public final class PlanTest {
         DUE.same("it has another", x.chance(0, 1, 0), 1);
         DUE.same("not clean ahead, clean then", x.clean() * 2 + x.chance(0, 1, 2), 1);
         DUE.same("no users", new QuietChannels().chance(BIG, 20, 2), 1);
+        DUE.same("clean neither ahead nor then", Due.told("user a 0 0 1 1;fixed a 2;").chance(0, 1, 2), 0);
+        // Drawn from 0 on: 1, then 19; what is BLOCKED stays so: a goes from 1 to 19, and from there to 20, not to 1.
+        x = Due.told("orders 0;user a 0 0 1 20;fixed a 1;block 2 18;");
+        DUE.same("losses", x.chance(0, 2, 1), 2);
+        DUE.same("it has 20 then", x.chance(0, 2, 0), 1);
+        x.block(20);
+        DUE.same("it has none then", x.chance(0, 2, 0), 0);
+        drawsOfTwenty();
+    }
+
+    /** A user on each CHANNEL of the band by turns: it is lost just if the CHANNEL is drawn. */
+    private static void drawsOfTwenty() {
+        for (int seed : new int[] {0, 1, 12345, 99999, 1 << 30, BIG}) {
+            for (int n : new int[] {1, 2, 7, 20}) {
+                QuietChannels x = Due.told("band 60;orders 0;user a 0 0 1 60;block 1 60;");
+                int[] draws = drawn(seed, n, 60);
+                for (int channel = 1; channel <= 60; channel++) {
+                    x.tune(0, channel);
+                    int lost = 0;
+                    for (int draw : draws) {
+                        lost = draw == channel ? 1 : lost;
+                    }
+                    DUE.same("chance on " + channel, x.chance(seed, n, 1), lost);
+                }
+            }
+        }
     }
 
     private static void chanceOfTwo() {

@@ -21,6 +21,7 @@ public final class ProductTest {
         links();
         crowds();
         makers();
+        askedFirst();
         clearances();
         nearest();
         wrongInputs();
@@ -172,6 +173,12 @@ public final class ProductTest {
         DUE.row("10 is 3 from 13", hits, 0, 0, 0, 1);
         DUE.same("from above", Due.told("orders 1;guard 2;" + text + "8;").hits(2), 1);
         DUE.same("who is in it isn't hit", Due.told("orders 1;guard 5;" + text + "30;").products(2), 0);
+        DUE.same("at the lowest end", Due.told("orders 1;guard 1;user a 0 9 1 30;user b 0 9 1 30;user c 0 9 1 30;"
+                + "fixed a 8;fixed b 10;fixed c 1;").hits(2), 1);
+        DUE.same("at the highest end", Due.told("band 60;orders 1;guard 1;user a 0 9 1 30;user b 0 9 1 30;"
+                + "user c 0 9 1 60;fixed a 29;fixed b 30;fixed c 60;").hits(2), 1);
+        DUE.same("beyond the band", Due.told("band 59;orders 1;guard 2;user a 0 9 1 30;user b 0 9 1 30;"
+                + "user c 0 9 1 59;fixed a 30;fixed b 30;fixed c 59;").hits(2), 0);
         // Without a CHANNEL, that is 0, none is near the product on 2.
         QuietChannels x = Due.told("orders 1;guard 5;" + text + "30;");
         x.tune(2, 0);
@@ -220,6 +227,10 @@ public final class ProductTest {
         x.power(0, 1);
         DUE.same("not heard at its own site", x.hits(2), 0);
         DUE.same("c makes no product with a and b", x.products(0), 2);
+        for (int site = 0; site < 3; site++) {
+            String own = "loss 6 0 0;" + SECOND.replace(" 0 3 ", " " + site + " 3 ");
+            DUE.same("LEVEL 0 at its own site " + site, Due.told(own).products(2), 3);
+        }
     }
 
     private static void crowds() {
@@ -242,6 +253,10 @@ public final class ProductTest {
         DUE.same("without a channel", x.crowds(0), 0);
         DUE.same("crowds(3)", x.crowds(3), 0);
         DUE.same("mostSpace", x.mostSpace(), 20);
+        x.tune(3, 1);
+        x.tune(0, 1);
+        DUE.same("on channel 1", x.crowds(0), 8);
+        DUE.same("nearest on channel 1", x.nearest(0), 3);
         x = Due.told(text);
         x.tune(3, 7);
         DUE.same("one channel for two crowds by any space", x.mostSpace(), -2);
@@ -272,6 +287,23 @@ public final class ProductTest {
         DUE.same("as bits", x.product(x.loudest(), 6), 9);
         DUE.same("worst", x.worst(), 1);
         DUE.row("rank", new int[] {x.rank(0), x.rank(1), x.rank(2), x.rank(3)}, 1, 2, 0, 3);
+    }
+
+    /** Each of them asked first, so that nothing another call has listed is left. */
+    private static void askedFirst() {
+        DUE.same("hits", Due.told(SECOND).hits(2), 1);
+        DUE.same("when", Due.told(SECOND).when(2), 255);
+        DUE.same("clearance", Due.told(SECOND).clearance(2), 0);
+        DUE.same("loudest", Due.told(SECOND).loudest(), 0);
+        DUE.same("worst", Due.told(SECOND).worst(), 0);
+        DUE.same("bySort", Due.told(SECOND).bySort(1, 2), 2);
+        DUE.same("product", Due.told(SECOND).product(5, 4), 4);
+        DUE.same("hitBy", Due.told(SECOND).hitBy(0, 0), 5);
+        DUE.same("products", Due.told(SECOND).products(2), 3);
+        QuietChannels x = Due.told("orders 1;user d 1 0 1 30;" + SECOND.substring(9));
+        DUE.same("rank", x.rank(0), 1);
+        x.tune(1, 0);
+        DUE.same("rank", x.rank(0), 0);
     }
 
     private static void clearances() {
@@ -307,6 +339,7 @@ public final class ProductTest {
         DUE.same("none else at the site", x.nearest(3), -2);
         x.tune(0, 0);
         DUE.same("it has none", x.nearest(0), -2);
+        DUE.same("nor has it for others", x.nearest(2), 1);
         DUE.same("slots don't matter", x.nearest(1), 2);
         x.tune(2, 0);
         DUE.same("the others have none", x.nearest(1), -2);

@@ -65,6 +65,12 @@ public final class TextTest {
         DUE.same("band", x.count(1), 9);
         DUE.same("all of the tape is gone", x.count(8), 0);
         DUE.same("text(1)", x.text(1), -2);
+        Due.feed(x, "band 60;");
+        DUE.same("a text that ends within a number", x.text(6), -1);
+        DUE.same("its place", x.fault(1), 6);
+        Due.feed(x, "band 60;");
+        DUE.same("a text that ends within a word", x.text(3), -1);
+        DUE.same("its place", x.fault(1), 0);
     }
 
     private static void goodTexts() {
@@ -76,6 +82,7 @@ public final class TextTest {
         good("guard 0;space 1;orders 0;", 3);
         good("space 20;orders 7;", 2);
         good("loss 0 99 0;seed 99999;", 2);
+        good("seed 0;", 1);
         good("seed 0000000000000000000000007;", 1);
         good("user abcdef 0 0 1 1;", 1);
         good("user a0 0 1 1;", 1);
@@ -126,6 +133,7 @@ public final class TextTest {
         bad(A + "fixed a 1;band 5;", 1, 25);
         bad("block 1 1;band 5;", 1, 10);
         bad("band 5;block 1 1;band 5;", 1, 17);
+        bad("abcdef 1;", 1, 0);
         bad("loss 1 2;", 1, 8);
         bad("link 0 1;", 1, 8);
     }
@@ -183,6 +191,10 @@ public final class TextTest {
         bad("orders 1;orders 1;", 3, 9);
         bad("loss 1 1 1;loss 1 1 1;", 3, 11);
         bad("seed 1;seed 1;", 3, 7);
+        bad("guard 1;space 1;orders 1;loss 1 1 1;seed 1;guard 1;", 3, 43);
+        bad("seed 1;band 5;loss 1 1 1;seed 1;", 3, 25);
+        bad(A + "user b 0 0 1 1;fixed a 1;fixed b 1;fixed a 1;", 3, 56);
+        bad(A + "user b 0 0 1 1;slots a 1;slots b 1;slots a 1;", 3, 56);
         bad(A + "user a", 3, 20);
         bad(A + "fixed a 1;fixed a", 3, 31);
         bad(A + "slots a 1;slots a", 3, 31);
