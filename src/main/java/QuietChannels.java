@@ -66,7 +66,7 @@ public final class QuietChannels {
     /** Where calls try what would be: each of them begins by copying or filling it. */
     private final Scene trial = new Scene();
     private final Products list = new Products();
-    private final Search search = new Search(list);
+    private final Search search = new Search();
     private final History history = new History();
     private final Image image = new Image();
     private boolean imageKept = false;
@@ -445,7 +445,7 @@ public final class QuietChannels {
         int leaving = 0;
         for (int channel = 1; channel <= scene.band; channel++) {
             trial.copyFrom(scene);
-            if (fitsOnTrial(user, channel) && search.seek(trial, trial.untunedUsers()) == FOUND) {
+            if (fitsOnTrial(user, channel) && search.seek(list, trial, trial.untunedUsers()) == FOUND) {
                 leaving++;
             }
         }
@@ -571,7 +571,7 @@ public final class QuietChannels {
     /** Leaves on the trial scene what is found for all that have no CHANNEL. */
     private int planAll() {
         trial.copyFrom(scene);
-        return search.seek(trial, trial.untunedUsers());
+        return search.seek(list, trial, trial.untunedUsers());
     }
 
     public int planned(int user) {
@@ -599,7 +599,7 @@ public final class QuietChannels {
             for (int set = 1; set <= tuned; set++) {
                 if (Integer.bitCount(set) == size && (set & ~tuned) == 0) {
                     trial.copyFrom(scene);
-                    if (search.seek(trial, set) == FOUND) {
+                    if (search.seek(list, trial, set) == FOUND) {
                         return set;
                     }
                 }
@@ -613,7 +613,7 @@ public final class QuietChannels {
         for (int band = Math.max(BAND_LEAST, scene.greatestLow()); band <= BAND_MOST; band++) {
             trial.copyFrom(scene);
             trial.narrowTo(band);
-            if (search.seek(trial, trial.allUsers()) == FOUND) {
+            if (search.seek(list, trial, trial.allUsers()) == FOUND) {
                 return band;
             }
         }
@@ -678,7 +678,7 @@ public final class QuietChannels {
         for (int user = 0; user < trial.users; user++) {
             if (trial.channel[user] == channel) {
                 losses++;
-                search.seek(trial, 1 << user);
+                search.seek(list, trial, 1 << user);
             }
         }
         return losses;
@@ -1128,20 +1128,15 @@ public final class QuietChannels {
     }
 
     private static final class Search {
-        private final Products list;
         private final int[] wanted = new int[USERS_MOST];
         private int size = 0;
         int looks = 0;
-
-        Search(Products list) {
-            this.list = list;
-        }
 
         /**
          * SEARCH for a set of USERS, whose CHANNELS are taken away first: FOUND, and they have what it found;
          * or NOTHING or GAVE_UP, and they have none.
          */
-        int seek(Scene scene, int set) {
+        int seek(Products list, Scene scene, int set) {
             untune(scene, set);
             looks = 0;
             // What isn't CLEAN can't become so by more CHANNELS: none FITS, and one USER's LOOKS never give up.
