@@ -45,6 +45,16 @@ public final class EdgeProductTest {
                 .due("bySort 5 0", 0);
     }
 
+    @Says("that have CHANNELS,")
+    static void terms_nothingIsLeftOfProductsThatWere() {
+        // a and b lose theirs one by one, c keeps its own: what was asked of more PRODUCTS isn't answered of fewer.
+        Run run = Run.on(SECOND).due("worst", 0).due("loudest", 0).due("hits 2", 1).due("tune 0 0", 4);
+        run.due("products 0", 2).due("hits 2", 0).due("hitBy 2 0", -2).due("when 2", 0).due("tune 1 0", 6);
+        run.due("products 0", 0).due("hits 2", 0).due("hitBy 2 0", -2).due("when 2", 0).due("clearance 2", -2).due("worst", -2)
+                .due("loudest", -2).row("rank", 0, 1, 2).row("bySort 0", 0, 0, 0).due("product 0 0", -1000).due("left", 0)
+                .due("turned -1", 0);
+    }
+
     @Says("all unlike ones,")
     static void terms_productsAreOfUnlikeUsers() {
         Run.on("band 60;orders 7;user a 0 30 1 60;fixed a 5;").due("products 0", 0);
@@ -255,8 +265,8 @@ public final class EdgeProductTest {
             String to = sites.substring(2);
             String text = "orders 1;user a " + from + " 3 1 30;user b " + from + " 3 1 30;user c " + to + " 3 1 30;"
                     + "fixed a 4;fixed b 6;fixed c 10;";
-            Run.on(text + "link " + sites + " 1;").due("hits 2", 1);
-            Run.on(text + "link " + sites + " 2;").due("hits 2", 0);
+            Run.on(text + "link " + sites + " 1;").due("hits 2", 1).due("ifTuned 2 10", 1).due("fits 2 10", 0);
+            Run.on(text + "link " + sites + " 2;").due("hits 2", 0).due("ifTuned 2 10", 0).due("fits 2 10", 1);
         }
     }
 

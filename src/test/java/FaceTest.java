@@ -4,6 +4,7 @@ import java.lang.reflect.Method;
 import java.lang.reflect.Modifier;
 import java.util.Arrays;
 import java.util.List;
+import java.util.NoSuchElementException;
 import java.util.Set;
 import java.util.TreeSet;
 
@@ -15,6 +16,9 @@ public final class FaceTest {
             "leastBand 0", "grown 4", "worst 0", "ifTuned 2", "bySort 2", "loudest 0", "turned 1", "left 0",
             "bestSwap 0", "when 1", "clearance 1", "nearest 1", "mostSpace 0", "spare 1", "rank 1", "linked 2",
             "mostPower 1", "mostGuard 0", "chance 3", "undo 0", "keep 0", "back 0", "count 1");
+
+    /** What user() may throw; no other call throws. */
+    private static final Set<Class<?>> THROWN = Set.of(IndexOutOfBoundsException.class, NoSuchElementException.class);
 
     private static int wrong = 0;
 
@@ -33,7 +37,8 @@ public final class FaceTest {
         Constructor<?>[] constructors = face.getDeclaredConstructors();
         rule(constructors.length == 1 && Modifier.isPublic(constructors[0].getModifiers())
                 && constructors[0].getParameterCount() == 0, "not the one constructor");
-        rule(face.getField("NONE").getInt(null) == -1, "NONE is not -1");
+        rule(face.getField("NONE").getInt(null) == -1 && face.getField("NONE").getModifiers()
+                == (Modifier.PUBLIC | Modifier.STATIC | Modifier.FINAL), "NONE is not the constant -1");
         fields(face, true);
         for (Class<?> inside : face.getDeclaredClasses()) {
             rule(Modifier.isStatic(inside.getModifiers()), inside + " is not static");
@@ -58,6 +63,8 @@ public final class FaceTest {
                 names.add(m.getName());
                 rule(Modifier.isPublic(m.getModifiers()) && !Modifier.isStatic(m.getModifiers()), m + " is not public");
                 rule(m.getReturnType() == int.class, m + " does not answer an int");
+                rule(Set.of(m.getExceptionTypes()).equals(m.getName().equals("user") ? THROWN : Set.of()),
+                        m + " does not declare what it throws, as the document does");
                 rule(Arrays.stream(m.getParameterTypes()).allMatch(t -> t == int.class), m + " takes more than ints");
             }
         }
