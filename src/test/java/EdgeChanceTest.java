@@ -31,6 +31,8 @@ public final class EdgeChanceTest {
         // b and c make three, a two: b from 4 to 1, then a, with c, from 3 to 1.
         Run.on(SECOND + "user d 1 3 1 30;fixed d 16;link 0 1 0;").due("power 1 4", 3).due("turned -1", 5)
                 .row("turned", 1, 1, 3, 3);
+        // b makes two, but from 4 on no more than a does with it.
+        Run.on(SECOND).due("power 1 5", 3).due("power 2 0", 3).due("turned -1", 4).row("turned", 0, 4, 0);
         // Who is hit, though it is the first, is in none.
         Run.on("orders 1;user d 1 3 1 30;user a 0 3 1 30;user b 0 3 1 30;link 0 1 0;fixed d 10;fixed a 4;fixed b 6;")
                 .due("turned -1", 2).row("turned", 3, 1, 3);
@@ -40,9 +42,11 @@ public final class EdgeChanceTest {
     static void terms_turnedDownEndsWhereTheWorstHasNoPower() {
         Run.on("loss 0 0 0;" + SECOND).due("turned -1", 3).row("turned", 0, 3, 3).due("left", 3);
         Run.on("loss 0 0 0;" + SECOND).due("power 0 0", 3).due("turned -1", 0).row("turned", 0, 3, 3).due("left", 3);
-        Run.on("loss 0 0 0;" + SECOND).due("power 0 30", 3).due("power 1 30", 3).due("turned -1", 30).row("turned", 0, 30, 3);
+        Run.on("loss 0 0 0;" + SECOND).due("power 0 30", 3).due("power 1 30", 3).due("turned -1", 30)
+                .row("turned", 0, 30, 3);
         // b makes two, from 4 on one with a; a comes down to 0, and just then there are none.
-        Run.on(SECOND).due("power 1 5", 3).due("power 2 0", 3).due("turned -1", 4).row("turned", 0, 4, 0).due("left", 0);
+        Run.on(SECOND).due("power 1 5", 3).due("power 2 0", 3).due("turned -1", 4).row("turned", 0, 4, 0)
+                .due("left", 0);
     }
 
     @Says("that is one less.")
@@ -50,7 +54,8 @@ public final class EdgeChanceTest {
         Run.on(APART + "link 0 2 0;").due("power 0 30", 3).due("turned -1", 29).due("turned 0", 1).due("power 1 30", 3)
                 .due("turned -1", 30).row("turned", 0, 30, 3).due("left", 1);
         // a from 30 to 0, by which 31 is just too much; then b.
-        Run.on("loss 31 0 0;" + SECOND.replace(" 3 1 30", " 30 1 30")).due("turned -1", 60).row("turned", 0, 0, 30).due("left", 0);
+        Run.on("loss 31 0 0;" + SECOND.replace(" 3 1 30", " 30 1 30")).due("turned -1", 60).row("turned", 0, 0, 30)
+                .due("left", 0);
     }
 
     // ---- DRAWS and CHANCE
@@ -65,7 +70,8 @@ public final class EdgeChanceTest {
                 for (int i = drawn.length - 1; i >= 0; i--) {
                     first = drawn[i] == channel ? i : first;
                 }
-                run.due("tune 0 " + channel, had).due("chance " + seed + " " + drawn.length + " 1", first < drawn.length ? 1 : 0);
+                run.due("tune 0 " + channel, had)
+                        .due("chance " + seed + " " + drawn.length + " 1", first < drawn.length ? 1 : 0);
                 if (first > 0) {
                     run.due("chance " + seed + " " + first + " 1", 0);
                 }
@@ -99,7 +105,8 @@ public final class EdgeChanceTest {
     static void terms_byChanceGoesOnWithWhatTheOneAheadLeft() {
         // 1, then 19, then 29 are drawn of 30: a goes from 1 to 19, from there to 20; 19 is BLOCKED then, 1 still is.
         Run.on("orders 0;user a 0 0 1 20;fixed a 1;block 2 18;").due("chance 0 1 1", 1).due("chance 0 1 0", 1)
-                .due("chance 0 2 1", 2).due("chance 0 2 0", 1).due("chance 0 20 1", 3).due("block 20", 1).due("chance 0 2 1", 2)
+                .due("chance 0 2 1", 2).due("chance 0 2 0", 1).due("chance 0 20 1", 3).due("block 20", 1)
+                .due("chance 0 2 1", 2)
                 .due("chance 0 2 0", 0);
         // Of two USERS of one SITE the first takes what the second loses later.
         Run.on("orders 0;user a 0 0 1 30;user b 0 0 1 30;fixed a 1;fixed b 19;").row("chance 0 2", 2, 2, 1);
@@ -114,7 +121,8 @@ public final class EdgeChanceTest {
         Run.on("band 4;orders 0;user a 0 0 1 1;fixed a 1;").row("chance 0 1", 0, 1, 1).row("chance 0 2", 0, 1, 1)
                 .row("chance 0 3", 0, 1, 1);
         // The last of the band; and nothing of it is BLOCKED behind the call.
-        Run.on("orders 0;user a 0 0 30 30;fixed a 30;").row("chance MAX 1", 0, 1, 1).idle("chance MAX 20 1", 1).due("count 5", 0);
+        Run.on("orders 0;user a 0 0 30 30;fixed a 30;").row("chance MAX 1", 0, 1, 1).idle("chance MAX 20 1", 1)
+                .due("count 5", 0);
         Run.on("orders 0;user a 0 0 2 30;fixed a 2;").row("chance 0 7", 1, 0, 1).row("chance 0 8", 1, 1, 1);
     }
 
@@ -142,19 +150,23 @@ public final class EdgeChanceTest {
 
     @Says("(nothing, GIVES UP: none).")
     static void terms_byChanceItHasNoneIfNothingIsFound() {
-        Run.on("orders 0;user a 0 0 1 2;user b 0 0 1 2;fixed a 1;fixed b 2;").row("chance 0 1", 1, 1, 1).row("chance 0 20", 0, 2, 1);
+        Run.on("orders 0;user a 0 0 1 2;user b 0 0 1 2;fixed a 1;fixed b 2;").row("chance 0 1", 1, 1, 1)
+                .row("chance 0 20", 0, 2, 1);
     }
 
     // ---- promise 29
 
     @Says("HITS and CROWDS together, if a USER had a CHANNEL 0 .. BAND (0: none);")
     static void p29_ifTuned() {
-        Run.on(SECOND).due("ifTuned 2 10", 3).due("ifTuned 2 0", 0).due("ifTuned 2 2", 3).due("ifTuned 2 4", 1).due("ifTuned 2 1", 0)
+        Run.on(SECOND).due("ifTuned 2 10", 3).due("ifTuned 2 0", 0).due("ifTuned 2 2", 3).due("ifTuned 2 4", 1)
+                .due("ifTuned 2 1", 0)
                 .due("ifTuned 2 30", 0).idle("ifTuned 0 1", 0).channels(4, 6, 10);
         Run.on("space 2;" + SECOND).due("ifTuned 2 5", 2).due("ifTuned 2 3", 1).due("ifTuned 2 10", 3);
         Run.on(CROWD + "5;").due("ifTuned 1 5", 1).due("ifTuned 1 6", 0).due("ifTuned 1 0", 0).due("ifTuned 0 0", 0);
         // BLOCKED or beyond its stretch, it has it all the same.
         Run.on("user a 0 0 1 1;block 9 9;").due("ifTuned 0 9", 0).due("ifTuned 0 30", 0);
+        Run.on("orders 0;user a 0 0 1 30;user b 0 0 1 4;block 5 5;fixed a 5;").due("ifTuned 1 5", 1).due("tune 0 6", 5)
+                .due("ifTuned 1 6", 1).due("block 4", 1).due("tune 0 4", 6).due("ifTuned 1 4", 1);
         Run.on("band 60;" + APART + "link 0 2 0;").due("ifTuned 2 60", 0).due("ifTuned 2 10", 1);
     }
 
@@ -194,7 +206,8 @@ public final class EdgeChanceTest {
         Run.on("loss 0 0 0;" + SECOND).idle("left", 3).due("products 2", 3);
         // Without a's POWER b and c still hit a.
         Run.on("loss 1 0 0;" + SECOND).due("power 1 1", 3).due("power 2 1", 3).due("turned -1", 3).due("left", 3);
-        Run.on("loss 2 0 0;" + SECOND).due("power 1 1", 3).due("power 2 1", 3).due("products 2", 3).due("turned -1", 4).due("left", 0)
+        Run.on("loss 2 0 0;" + SECOND).due("power 1 1", 3).due("power 2 1", 3).due("products 2", 3).due("turned -1", 4)
+                .due("left", 0)
                 .row("turned", 0, 0, 1);
         Run.on(APART + "link 0 2 0;").due("power 0 30", 3).due("power 1 30", 3).due("left", 1);
     }
@@ -206,12 +219,15 @@ public final class EdgeChanceTest {
     static void p34_bestSwapLeavesFewest() {
         // 29, of another SITE, for any of the three leaves none; for a's 4 with 16 instead b and c make 16.
         String text = SECOND + "user d 1 0 1 30;fixed d 29;";
-        Run.on(text).idle("bestSwap", 3).due("tune 3 16", 29).due("bestSwap", 9).due("tune 3 0", 16).due("bestSwap", -2);
+        Run.on(text).idle("bestSwap", 3).due("tune 3 16", 29).due("bestSwap", 9).due("tune 3 0", 16)
+                .due("bestSwap", -2);
         // a and b have no SLOT in common, e crowds with both: a or b for f leaves one, e for f none.
         Run.on("orders 0;user a 0 0 1 30;user b 0 0 1 30;user c 2 0 1 30;user d 2 0 1 30;user e 0 0 1 30;user f 1 0 1 30;"
-                + "slots a 1;slots b 2;fixed a 5;fixed b 5;fixed e 5;fixed f 20;").due("products 3", 2).due("bestSwap", 29);
+                + "slots a 1;slots b 2;fixed a 5;fixed b 5;fixed e 5;fixed f 20;").due("products 3", 2)
+                .due("bestSwap", 29);
         // Only HITS, only one: twice b less a is 1, which hits c of the other SITE.
-        Run.on("user a 0 9 1 30;user b 0 9 1 30;user c 1 9 1 30;link 0 1 0;fixed a 3;fixed b 2;fixed c 1;").due("bestSwap", 8)
+        Run.on("user a 0 9 1 30;user b 0 9 1 30;user c 1 9 1 30;link 0 1 0;fixed a 3;fixed b 2;fixed c 1;")
+                .due("bestSwap", 8)
                 .channels(3, 2, 1);
     }
 
@@ -219,8 +235,10 @@ public final class EdgeChanceTest {
     static void p34_bestSwapIsTheFirst() {
         Run.on(SECOND + "user d 1 0 1 30;user e 2 0 1 30;fixed d 29;fixed e 28;").due("bestSwap", 3).due("tune 3 0", 29)
                 .due("bestSwap", 4);
-        Run.on("orders 0;user a 1 0 1 30;user b 0 0 1 30;user c 0 0 1 30;fixed a 9;fixed b 5;fixed c 5;").due("bestSwap", 1)
-                .due("tune 0 1", 9).due("bestSwap", 1).due("tune 0 9", 1).due("tune 1 1", 5).due("tune 2 1", 5).due("bestSwap", 1);
+        Run.on("orders 0;user a 1 0 1 30;user b 0 0 1 30;user c 0 0 1 30;fixed a 9;fixed b 5;fixed c 5;")
+                .due("bestSwap", 1)
+                .due("tune 0 1", 9).due("bestSwap", 1).due("tune 0 9", 1).due("tune 1 1", 5).due("tune 2 1", 5)
+                .due("bestSwap", 1);
     }
 
     @Says("6 times the lesser, and the other one;")
@@ -246,7 +264,8 @@ public final class EdgeChanceTest {
     @Says("The greatest POWER 0 .. 30 of a USER (all else as it is) by which there are no HITS;")
     static void p42_mostPower() {
         // a's and b's 3 make 1, of which the link takes 4: 5 and 3 are one too few, 6 and 3 enough.
-        Run.on(APART + "link 0 2 4;").idle("mostPower 0", 5).due("mostPower 2", 30).due("power 1 8", 3).due("mostPower 0", 0)
+        Run.on(APART + "link 0 2 4;").idle("mostPower 0", 5).due("mostPower 2", 30).due("power 1 8", 3)
+                .due("mostPower 0", 0)
                 .due("power 1 0", 8).due("mostPower 0", 8).due("mostPower 1", 5);
         Run.on(SECOND).due("tune 2 11", 10).due("mostPower 0", 30);
         Run.on("loss 61 0 0;" + SECOND).due("power 1 30", 3).due("mostPower 0", 30);
@@ -257,7 +276,8 @@ public final class EdgeChanceTest {
     @Says("-2: by none;")
     static void p42_mostPowerByNone() {
         Run.on(SECOND).row("mostPower", -2, -2, -2);
-        Run.on(APART + "link 0 2 4;").due("power 1 9", 3).due("mostPower 0", -2).due("power 0 6", 3).due("mostPower 2", -2);
+        Run.on(APART + "link 0 2 4;").due("power 1 9", 3).due("mostPower 0", -2).due("power 0 6", 3)
+                .due("mostPower 2", -2);
     }
 
     @Says("NONE: no such USER.")
@@ -273,7 +293,8 @@ public final class EdgeChanceTest {
         Run.fresh().due("mostGuard", 5);
         // a and b are 10, b less a is 2.
         String text = APART + "link 0 2 1;";
-        Run.on(text).due("tune 2 11", 10).due("mostGuard", 0).due("tune 2 12", 11).due("mostGuard", 1).due("tune 2 15", 12)
+        Run.on(text).due("tune 2 11", 10).due("mostGuard", 0).due("tune 2 12", 11).due("mostGuard", 1)
+                .due("tune 2 15", 12)
                 .due("mostGuard", 4).due("tune 2 16", 15).due("mostGuard", 5).due("tune 2 6", 16).due("mostGuard", 3)
                 .due("tune 2 0", 6).due("mostGuard", 5);
         Run.on("guard 5;" + text).due("tune 2 12", 10).idle("mostGuard", 1).due("count 2", 5).due("hits 2", 1);
@@ -290,16 +311,20 @@ public final class EdgeChanceTest {
     @Says({"BY CHANCE n 1 .. 20", "from a seed 0 .. 2147483647 on"})
     static void p44_chanceTakesOneToTwentyFromASeed() {
         // 22 is the eleventh and the twentieth drawn from 0; 3 the ninth; 30 the first from 2147483647.
-        Run.on("orders 0;user a 0 0 1 30;block 1 30;").due("tune 0 22", 0).due("chance 0 10 1", 0).due("chance 0 11 1", 1)
-                .due("chance 0 20 1", 1).due("tune 0 1", 22).due("chance 0 1 1", 1).due("tune 0 30", 1).due("chance MAX 1 1", 1)
+        Run.on("orders 0;user a 0 0 1 30;block 1 30;").due("tune 0 22", 0).due("chance 0 10 1", 0)
+                .due("chance 0 11 1", 1)
+                .due("chance 0 20 1", 1).due("tune 0 1", 22).due("chance 0 1 1", 1).due("tune 0 30", 1)
+                .due("chance MAX 1 1", 1)
                 .due("chance 0 20 1", 0).due("tune 0 7", 30).due("chance 1 19 1", 1).due("chance 1 20 1", 1);
         Run.on("orders 0;user a 0 0 1 30;user b 1 0 1 30;block 1 30;").due("tune 0 28", 0).due("chance 1 18 1", 0)
-                .due("chance 1 19 1", 1).due("tune 0 0", 28).due("tune 1 14", 0).due("chance 0 17 1", 0).due("chance 0 18 1", 1);
+                .due("chance 1 19 1", 1).due("tune 0 0", 28).due("tune 1 14", 0).due("chance 0 17 1", 0)
+                .due("chance 0 18 1", 1);
     }
 
     @Says("(-1: that of the TEXT),")
     static void p44_chanceFromTheTextsSeed() {
-        Run.on("seed 1;orders 0;user a 0 0 1 30;fixed a 9;").due("chance -1 1 1", 1).due("chance 1 1 1", 1).due("chance 0 1 1", 0);
+        Run.on("seed 1;orders 0;user a 0 0 1 30;fixed a 9;").due("chance -1 1 1", 1).due("chance 1 1 1", 1)
+                .due("chance 0 1 1", 0);
         Run.on("orders 0;user a 0 0 1 30;fixed a 1;").due("chance -1 1 1", 1).due("chance 1 1 1", 0);
         Run.on("seed 1;user a 0 0 1 30;").tell("orders 0;user a 0 0 1 30;fixed a 1;", 3).due("chance -1 1 1", 1)
                 .due("chance -1 1 1", 1);
@@ -321,13 +346,15 @@ public final class EdgeChanceTest {
 
     @Says("2 whether all is CLEAN then (1, 0);")
     static void p44_chanceTellsWhetherAllIsClean() {
-        Run.on("orders 0;user a 0 0 1 1;fixed a 1;block 1 1;").due("clean", 0).due("chance 0 1 2", 1).due("chance 1 1 2", 0);
+        Run.on("orders 0;user a 0 0 1 1;fixed a 1;block 1 1;").due("clean", 0).due("chance 0 1 2", 1)
+                .due("chance 1 1 2", 0);
         Run.on("orders 0;user a 0 0 1 30;user b 1 0 1 1;fixed a 5;fixed b 5;").due("chance 0 1 2", 0);
     }
 
     @Says("NONE: no such ones.")
     static void p44_chanceOfNoSuchOnesIsNone() {
-        Run.on(SECOND).refused(-1, "chance # 1 0", -2, -3, Run.SMALL).refused(-1, "chance 0 # 0", 0, -1, 21, Run.BIG, Run.SMALL)
+        Run.on(SECOND).refused(-1, "chance # 1 0", -2, -3, Run.SMALL)
+                .refused(-1, "chance 0 # 0", 0, -1, 21, Run.BIG, Run.SMALL)
                 .refused(-1, "chance 0 1 #", -1, 3, Run.BIG, Run.SMALL).refused(-1, "chance -1 # 2", 0, 21);
     }
 }

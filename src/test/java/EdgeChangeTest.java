@@ -39,7 +39,8 @@ public final class EdgeChangeTest {
         Run.on(TWO).due("slots 0 11", 255).due("count 7", 1).due("undo", 0).due("user 0 6", 255);
         Run.on(TWO).due("slots 0 255", 255).due("count 7", 1).due("undo", 0).due("user 0 6", 255);
         Run.on(PAIR).due("complete", 3).channels(1, 2).due("count 7", 1).due("undo", 0).channels(0, 0);
-        Run.on(PAIR + "fixed a 5;fixed b 5;").due("mend", 1).channels(1, 5).due("count 7", 1).due("undo", 0).channels(5, 5);
+        Run.on(PAIR + "fixed a 5;fixed b 5;").due("mend", 1).channels(1, 5).due("count 7", 1).due("undo", 0)
+                .channels(5, 5);
     }
 
     @Says("the latest first")
@@ -108,10 +109,12 @@ public final class EdgeChangeTest {
         Run.on(PAIR).due("hitBy 2 0", -1).due("hitBy 0 -1", -1).due("hitBy 0 0", -2).due("freeAt 2 99", -1)
                 .due("freeAt 0 -1", -1).due("freeAt 0 99", -2);
         // A ninth one of a ROW that there is none of.
-        Run.fresh().due("grown 8 0 1 8", -1).due("grown 0 6 1 8", -1).due("grown 0 0 21 8", -1).due("grown 0 0 1 8", -2);
+        Run.fresh().due("grown 8 0 1 8", -1).due("grown 0 6 1 8", -1).due("grown 0 0 21 8", -1)
+                .due("grown 0 0 1 8", -2);
         // SITES that aren't unlike, and no such ones, have no link either.
         Run.fresh().due("linked 0 0", -1).due("linked 0 3", -1).due("linked 0 1", -2);
-        Run.on(PAIR).due("hits 2", -1).due("hits 1", -2).due("clearance 2", -1).due("clearance 1", -2).due("nearest 2", -1)
+        Run.on(PAIR).due("hits 2", -1).due("hits 1", -2).due("clearance 2", -1).due("clearance 1", -2)
+                .due("nearest 2", -1)
                 .due("nearest 1", -2);
         Run.on(PAIR + "block 1 10;").due("quietest 2", -1).due("quietest 1", -2);
     }
@@ -135,7 +138,8 @@ public final class EdgeChangeTest {
             throw new Run.Wrong("was " + before + " and is " + run.state());
         }
         // Nor what can be undone, nor the IMAGE.
-        run.due("undo", 1).due("user 0 1", 10).channels(5, 20).due("undo", 0).channels(0, 20).due("undo", -1).due("back", 1)
+        run.due("undo", 1).due("user 0 1", 10).channels(5, 20).due("undo", 0).channels(0, 20).due("undo", -1)
+                .due("back", 1)
                 .channels(0, 20);
         Run.fresh().idle("back", -1).idle("undo", -1);
     }
@@ -144,7 +148,8 @@ public final class EdgeChangeTest {
 
     @Says("A USER has a CHANNEL 1 .. BAND,")
     static void p06_tuneTakesOneToBand() {
-        Run.on(TWO).due("tune 0 1", 0).channels(1, 20).due("tune 0 20", 1).channels(20, 20).due("tune 1 1", 20).channels(20, 1);
+        Run.on(TWO).due("tune 0 1", 0).channels(1, 20).due("tune 0 20", 1).channels(20, 20).due("tune 1 1", 20)
+                .channels(20, 1);
         Run.on("band 60;user a 0 0 1 1;").due("tune 0 60", 0).channels(60).due("tune 0 1", 60).channels(1);
         Run.on("band 4;user a 0 0 1 1;").due("tune 0 4", 0).due("tune 0 5", -1).channels(4);
         // BLOCKED ones and those of another's, too.
@@ -197,7 +202,8 @@ public final class EdgeChangeTest {
 
     @Says("POWER of a USER becomes 0 .. 30:")
     static void p08_powerBecomesZeroToThirty() {
-        Run.on(TWO).due("power 0 0", 10).due("user 0 1", 0).due("power 0 30", 0).due("user 0 1", 30).due("user 1 1", 20);
+        Run.on(TWO).due("power 0 0", 10).due("user 0 1", 0).due("power 0 30", 0).due("user 0 1", 30)
+                .due("user 1 1", 20);
     }
 
     @Says("what it was;")
@@ -274,7 +280,8 @@ public final class EdgeChangeTest {
     @Says("(nothing changes by these, nor by no LOOKS).")
     static void p10_nothingChangesByACompleteThatFindsNothingOrLooksAtNone() {
         Run.fresh().idle("complete", 0).due("undo", -1);
-        Run.on(PAIR).due("tune 0 1", 0).due("tune 1 2", 0).idle("complete", 0).due("count 7", 2).due("undo", 1).channels(1, 0);
+        Run.on(PAIR).due("tune 0 1", 0).due("tune 1 2", 0).idle("complete", 0).due("count 7", 2).due("undo", 1)
+                .channels(1, 0);
         Run.on("orders 0;user a 0 0 1 1;user b 0 0 1 1;").due("tune 0 0", 0).idle("complete", -2).due("count 7", 1);
         Run.on(TOO_LONG).due("power 0 1", 0).idle("complete", -3).due("count 7", 1).due("undo", 0);
     }
@@ -319,7 +326,8 @@ public final class EdgeChangeTest {
 
     @Says("Of a USER, what 0 SITE,")
     static void p12_userSite() {
-        Run.on("user a 0 1 2 3;user b 2 1 2 3;user c 1 1 2 3;").due("user 0 0", 0).due("user 1 0", 2).due("user 2 0", 1);
+        Run.on("user a 0 1 2 3;user b 2 1 2 3;user c 1 1 2 3;").due("user 0 0", 0).due("user 1 0", 2)
+                .due("user 2 0", 1);
     }
 
     @Says("1 POWER,")
@@ -374,8 +382,10 @@ public final class EdgeChangeTest {
 
     @Says("Whether a CHANNEL 1 .. BAND is BLOCKED (1, 0);")
     static void p13_blockedOfOneToBand() {
-        Run.on("band 60;block 1 1;block 60 60;block 31 33;").due("blocked 1", 1).due("blocked 2", 0).due("blocked 30", 0)
-                .due("blocked 31", 1).due("blocked 32", 1).due("blocked 33", 1).due("blocked 34", 0).due("blocked 59", 0)
+        Run.on("band 60;block 1 1;block 60 60;block 31 33;").due("blocked 1", 1).due("blocked 2", 0)
+                .due("blocked 30", 0)
+                .due("blocked 31", 1).due("blocked 32", 1).due("blocked 33", 1).due("blocked 34", 0)
+                .due("blocked 59", 0)
                 .due("blocked 60", 1);
         Run.on("band 4;").due("blocked 4", 0).due("block 4", 1).due("blocked 4", 1);
     }
@@ -390,7 +400,8 @@ public final class EdgeChangeTest {
 
     @Says("LOSS of the link of two SITES 0 .. 2;")
     static void p41_linkedAnswersTheLossBothWays() {
-        Run.on("link 0 1 0;link 2 1 99;").due("linked 0 1", 0).due("linked 1 0", 0).due("linked 1 2", 99).due("linked 2 1", 99);
+        Run.on("link 0 1 0;link 2 1 99;").due("linked 0 1", 0).due("linked 1 0", 0).due("linked 1 2", 99)
+                .due("linked 2 1", 99);
         Run.on("link 2 0 7;").due("linked 0 2", 7).due("linked 2 0", 7);
     }
 
@@ -403,7 +414,8 @@ public final class EdgeChangeTest {
     @Says("NONE: no such ones,")
     static void p41_linkedOfNoSuchSitesIsNone() {
         Run.on("link 0 1 0;link 0 2 0;link 1 2 0;").refused(-1, "linked # 0", -1, 3, Run.BIG, Run.SMALL)
-                .refused(-1, "linked 0 #", -1, 3, Run.BIG, Run.SMALL).refused(-1, "linked # #", 3, -1, Run.BIG, Run.SMALL);
+                .refused(-1, "linked 0 #", -1, 3, Run.BIG, Run.SMALL)
+                .refused(-1, "linked # #", 3, -1, Run.BIG, Run.SMALL);
     }
 
     @Says("not unlike.")
@@ -416,17 +428,20 @@ public final class EdgeChangeTest {
 
     @Says("The latest is undone:")
     static void p45_undoTakesTheLatestBack() {
-        Run.on(TWO).due("tune 0 5", 0).due("tune 1 6", 20).due("undo", 1).channels(5, 20).due("undo", 0).channels(0, 20);
+        Run.on(TWO).due("tune 0 5", 0).due("tune 1 6", 20).due("undo", 1).channels(5, 20).due("undo", 0)
+                .channels(0, 20);
         // What was found by a SEARCH, and what BLOCKED and POWERS were ahead of it.
         Run.on(PAIR).due("block 1", 1).due("complete", 5).channels(2, 3).due("block 1", 0).due("undo", 2).channels(2, 3)
-                .due("blocked 1", 1).due("undo", 1).channels(0, 0).due("blocked 1", 1).due("undo", 0).due("blocked 1", 0);
+                .due("blocked 1", 1).due("undo", 1).channels(0, 0).due("blocked 1", 1).due("undo", 0)
+                .due("blocked 1", 0);
         Run.on(PAIR + "fixed a 5;fixed b 5;").due("power 0 9", 0).due("mend", 1).due("undo", 1).channels(5, 5)
                 .due("user 0 1", 9).due("undo", 0).due("user 0 1", 0);
     }
 
     @Says("how many are left;")
     static void p45_undoAnswersHowManyAreLeft() {
-        Run.on(TWO).due("tune 0 1", 0).due("tune 0 2", 1).due("tune 0 3", 2).due("undo", 2).due("count 7", 2).due("undo", 1)
+        Run.on(TWO).due("tune 0 1", 0).due("tune 0 2", 1).due("tune 0 3", 2).due("undo", 2).due("count 7", 2)
+                .due("undo", 1)
                 .due("tune 0 4", 1).due("undo", 1).due("undo", 0).due("count 7", 0);
     }
 
@@ -451,7 +466,8 @@ public final class EdgeChangeTest {
     @Says("how many USERS have a CHANNEL.")
     static void p46_keepAnswersHowManyHaveAChannel() {
         Run.fresh().due("keep", 0);
-        Run.on(TWO).due("keep", 1).due("tune 0 1", 0).due("keep", 2).due("tune 1 0", 20).due("keep", 1).due("tune 0 0", 1)
+        Run.on(TWO).due("keep", 1).due("tune 0 1", 0).due("keep", 2).due("tune 1 0", 20).due("keep", 1)
+                .due("tune 0 0", 1)
                 .due("keep", 0);
         Run.on("user a 0 0 1 1;user b 0 0 1 1;user c 0 0 1 1;user d 0 0 1 1;user e 0 0 1 1;user f 0 0 1 1;"
                 + "fixed a 1;fixed b 1;fixed c 1;fixed d 1;fixed e 1;fixed f 1;").due("keep", 6);
@@ -461,23 +477,27 @@ public final class EdgeChangeTest {
 
     @Says("All is as in the IMAGE")
     static void p47_backMakesAllAsInTheImage() {
-        Run run = Run.on(TWO).due("tune 0 5", 0).due("power 0 1", 10).due("slots 1 2", 255).due("block 9", 1).due("keep", 2);
+        Run run = Run.on(TWO).due("tune 0 5", 0).due("power 0 1", 10).due("slots 1 2", 255).due("block 9", 1)
+                .due("keep", 2);
         run.due("tune 0 6", 5).due("tune 1 0", 20).due("power 0 2", 1).due("power 1 2", 20).due("slots 1 3", 2)
                 .due("slots 0 3", 255).due("block 9", 0).due("block 3", 0).due("block 10", 1);
-        run.due("back", 2).channels(5, 20).due("user 0 1", 1).due("user 1 1", 20).due("user 0 6", 255).due("user 1 6", 2)
+        run.due("back", 2).channels(5, 20).due("user 0 1", 1).due("user 1 1", 20).due("user 0 6", 255)
+                .due("user 1 6", 2)
                 .due("blocked 9", 1).due("blocked 3", 1).due("blocked 10", 0).due("count 5", 3);
     }
 
     @Says("(nothing to undo then; it stays):")
     static void p47_behindBackThereIsNothingToUndoAndTheImageStays() {
-        Run.on(TWO).due("tune 0 5", 0).due("keep", 2).due("tune 0 6", 5).due("back", 2).due("count 7", 0).due("undo", -1)
+        Run.on(TWO).due("tune 0 5", 0).due("keep", 2).due("tune 0 6", 5).due("back", 2).due("count 7", 0)
+                .due("undo", -1)
                 .channels(5, 20).due("tune 0 7", 5).due("count 7", 1).due("undo", 0).channels(5, 20).due("tune 0 8", 5)
                 .due("back", 2).channels(5, 20).due("count 7", 0).due("tune 1 1", 20).due("back", 2).channels(5, 20);
     }
 
     @Says("how many have one;")
     static void p47_backAnswersHowManyHaveOne() {
-        Run.on(TWO).due("keep", 1).due("tune 0 5", 0).due("back", 1).due("tune 0 5", 0).due("keep", 2).due("tune 0 0", 5)
+        Run.on(TWO).due("keep", 1).due("tune 0 5", 0).due("back", 1).due("tune 0 5", 0).due("keep", 2)
+                .due("tune 0 0", 5)
                 .due("tune 1 0", 20).due("back", 2);
         Run.fresh().due("keep", 0).due("back", 0);
     }
@@ -519,13 +539,15 @@ public final class EdgeChangeTest {
 
     @Says("5 CHANNELS that are BLOCKED,")
     static void p48_countBlocked() {
-        Run.on("band 60;block 1 60;").due("count 5", 60).due("block 60", 0).due("count 5", 59).due("undo", 0).due("count 5", 60);
+        Run.on("band 60;block 1 60;").due("count 5", 60).due("block 60", 0).due("count 5", 59).due("undo", 0)
+                .due("count 5", 60);
         Run.on("block 2 5;block 4 6;").due("count 5", 5).due("block 7", 1).due("count 5", 6);
     }
 
     @Says("6 USERS with a CHANNEL,")
     static void p48_countTuned() {
-        Run.on(TWO).due("count 6", 1).due("tune 0 1", 0).due("count 6", 2).due("tune 0 0", 1).due("tune 1 0", 20).due("count 6", 0);
+        Run.on(TWO).due("count 6", 1).due("tune 0 1", 0).due("count 6", 2).due("tune 0 0", 1).due("tune 1 0", 20)
+                .due("count 6", 0);
     }
 
     @Says("7 what can be undone,")

@@ -91,7 +91,8 @@ public final class EdgeCoverTest {
                 cover.tellWhatIsLeft(key);
             }
         }
-        System.out.println("EdgeCoverTest: " + cover.parts.size() + " parts of the document, " + cover.wrong + " wrong");
+        System.out.println("EdgeCoverTest: " + cover.parts.size() + " parts of the document, " + cover.wrong
+                + " wrong");
         if (cover.wrong > 0) {
             System.exit(1);
         }

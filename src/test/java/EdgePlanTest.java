@@ -34,18 +34,22 @@ public final class EdgePlanTest {
         Run.on("orders 1;user a 0 3 1 30;user c 0 3 1 30;user d 1 3 1 30;link 0 1 0;fixed a 4;fixed d 9;")
                 .rowFrom(4, "fits 1", 0, 0, 1).due("fits 1 13", 0).due("fits 1 14", 1);
         // Not BLOCKED, of its stretch, not too near.
-        Run.on("orders 0;space 3;user a 0 0 5 20;user b 0 0 1 30;block 8 8;fixed b 12;").rowFrom(4, "fits 0", 0, 1, 1, 1, 0, 1, 0, 0,
+        Run.on("orders 0;space 3;user a 0 0 5 20;user b 0 0 1 30;block 8 8;fixed b 12;")
+                .rowFrom(4, "fits 0", 0, 1, 1, 1, 0, 1, 0, 0,
                 0, 0, 0, 1).due("fits 0 20", 1).due("fits 0 21", 0);
         // What isn't CLEAN by the others isn't with it.
-        Run.on("orders 0;user a 0 0 1 1;user b 1 0 1 9;fixed a 2;").due("fits 1 5", 0).due("free 1", 0).due("complete", -2);
+        Run.on("orders 0;user a 0 0 1 1;user b 1 0 1 9;fixed a 2;").due("fits 1 5", 0).due("free 1", 0)
+                .due("complete", -2);
     }
 
     @Says("SEARCH for some USERS, without CHANNELS now, all others as they are:")
     static void terms_searchLeavesAllOthersAsTheyAre() {
         Run.on(PAIR).due("tune 1 1", 0).due("planned 0", 2).due("complete", 2).channels(2, 1);
-        Run.on("orders 0;user a 0 0 1 1;user b 0 0 1 1;fixed b 1;").due("planned 0", -2).due("complete", -2).channels(0, 1);
+        Run.on("orders 0;user a 0 0 1 1;user b 0 0 1 1;fixed b 1;").due("planned 0", -2).due("complete", -2)
+                .channels(0, 1);
         // With a set that must go, the others keep theirs and those without stay without.
-        Run.on("orders 0;user a 0 0 1 9;user b 0 0 1 9;user c 0 0 1 9;fixed b 3;fixed c 3;").due("mend", 2).channels(0, 1, 3);
+        Run.on("orders 0;user a 0 0 1 9;user b 0 0 1 9;user c 0 0 1 9;fixed b 3;fixed c 3;").due("mend", 2)
+                .channels(0, 1, 3);
     }
 
     @Says("by numbers, each takes the least CHANNEL of LOW .. HIGH that FITS;")
@@ -74,7 +78,8 @@ public final class EdgePlanTest {
         Run.on("orders 0;user a 0 0 5 9;block 5 7;").due("complete", 4).channels(8);
         Run.on("orders 0;user a 0 0 5 9;block 1 4;block 6 9;").due("complete", 1).channels(5);
         // Those that are too near or hit count as well: c looks at 1, and at 2 beside 1 and 3.
-        Run.on("orders 1;loss 0 0 0;user a 0 0 1 9;user b 0 0 3 9;user c 0 0 1 9;").due("complete", 7).channels(1, 3, 5);
+        Run.on("orders 1;loss 0 0 0;user a 0 0 1 9;user b 0 0 3 9;user c 0 0 1 9;").due("complete", 7)
+                .channels(1, 3, 5);
         Run.on(LONG).due("complete", 600);
     }
 
@@ -110,10 +115,16 @@ public final class EdgePlanTest {
         Run.on("orders 0;user a 0 0 1 9;user b 0 0 1 9;user c 0 0 1 9;slots a 1;slots b 2;fixed a 5;fixed b 5;fixed c 5;")
                 .due("mended", 4);
         // b has no CHANNEL and gets none.
-        Run.on("orders 0;user a 0 0 1 9;user b 0 0 1 9;user c 0 0 1 9;fixed a 5;fixed c 5;").due("mend", 1).channels(1, 0, 5);
+        Run.on("orders 0;user a 0 0 1 9;user b 0 0 1 9;user c 0 0 1 9;fixed a 5;fixed c 5;").due("mend", 1)
+                .channels(1, 0, 5);
+        // u, which has none, is in no set, though with it on 6, where it keeps x from looking on, SEARCH would find.
+        Run.on(trio("user z 0 0 31 31;user u 0 0 6 6;", 50)
+                + "fixed z 31;fixed x 60;fixed y 55;slots u 1;slots x 3;slots y 2;")
+                .idle("mended", -2).due("tune 1 6", 0).due("mended", 12);
         // All six must go.
         Run.on("orders 0;user a 0 0 1 1;user b 0 0 2 2;user c 0 0 3 3;user d 0 0 4 4;user e 0 0 5 5;user f 0 0 6 6;"
-                + "fixed a 2;fixed b 3;fixed c 4;fixed d 5;fixed e 6;fixed f 1;").due("mend", 63).channels(1, 2, 3, 4, 5, 6);
+                + "fixed a 2;fixed b 3;fixed c 4;fixed d 5;fixed e 6;fixed f 1;").due("mend", 63)
+                .channels(1, 2, 3, 4, 5, 6);
     }
 
     @Says("of several the least as a number,")
@@ -124,7 +135,8 @@ public final class EdgePlanTest {
         Run.on("orders 0;user a 0 0 5 5;user b 0 0 1 9;user c 0 0 1 9;user d 0 0 1 9;fixed a 5;fixed b 5;fixed c 5;fixed d 9;")
                 .due("mended", 6);
         // b must go, and a or d with it: 3 is less than 10.
-        Run.on("orders 0;user a 0 0 1 9;user b 0 0 1 9;user d 0 0 1 9;fixed b 10;fixed a 5;fixed d 5;").due("mended", 3);
+        Run.on("orders 0;user a 0 0 1 9;user b 0 0 1 9;user d 0 0 1 9;fixed b 10;fixed a 5;fixed d 5;")
+                .due("mended", 3);
     }
 
     @Says("by which, without their CHANNELS, SEARCH for them finds")
@@ -159,11 +171,13 @@ public final class EdgePlanTest {
         Run.on("user a 0 0 1 1;").due("leastBand", 4);
         Run.on("user a 0 0 4 30;").due("leastBand", 4);
         Run.on("user a 0 0 5 30;").due("leastBand", 5);
-        Run.on("band 60;user a 0 0 59 60;").due("leastBand", 59).due("block 59", 1).due("leastBand", 60).due("block 60", 1)
+        Run.on("band 60;user a 0 0 59 60;").due("leastBand", 59).due("block 59", 1).due("leastBand", 60)
+                .due("block 60", 1)
                 .due("leastBand", -2);
         // What CHANNELS they have now doesn't matter, and stays.
         Run.on("orders 0;user a 0 0 1 9;user b 0 0 1 9;fixed a 30;fixed b 30;").idle("leastBand", 4).channels(30, 30);
-        Run.on("orders 0;user a 0 0 1 9;user b 0 0 1 9;user c 0 0 1 9;user d 0 0 1 9;user e 0 0 1 9;").due("leastBand", 5);
+        Run.on("orders 0;user a 0 0 1 9;user b 0 0 1 9;user c 0 0 1 9;user d 0 0 1 9;user e 0 0 1 9;")
+                .due("leastBand", 5);
         // A SEARCH that gives up doesn't find: z has 31 with a LOOK of its own.
         Run.on(trio("user z 0 0 31 31;", 48)).due("leastBand", 51);
         Run.on(trio("user z 0 0 31 31;", 50)).due("leastBand", -2);
@@ -229,7 +243,8 @@ public final class EdgePlanTest {
     @Says("with these as CHANNELS, a BAND of 60, is CLEAN.")
     static void terms_aRowsBandIsSixty() {
         Run run = Run.on("band 4;guard 5;space 20;orders 0;block 1 4;user a 0 0 4 4;fixed a 1;");
-        run.due("free 0", 0).row("grown 0 0 20", 1, 21, 41, -2).due("free 0", 0).row("grown 2 0 1", 1, 2, 4, 8, 13, 21, 31, 45);
+        run.due("free 0", 0).row("grown 0 0 20", 1, 21, 41, -2).due("free 0", 0)
+                .row("grown 2 0 1", 1, 2, 4, 8, 13, 21, 31, 45);
         run.row("grown 1 1 10", 1, 11, 21, 34, 47, 60, -2).channels(1).due("count 1", 4);
         // Twice 16 less 1 is 31, within guard of 32: with a lesser BAND it were none.
         run.due("free 0", 0).row("grown 2 1 15", 1, 16, 33).due("free 0", 0).row("grown 0 0 1", 1, 2, 3, 4, 5, 6, 7, 8);
@@ -243,7 +258,8 @@ public final class EdgePlanTest {
     static void p20_fitsAsIfItHadNone() {
         Run.on(SECOND).due("fits 2 10", 0).due("fits 2 11", 1).due("fits 2 4", 0).due("fits 2 1", 1).due("fits 2 30", 1)
                 .idle("fits 0 5", 1).channels(4, 6, 10);
-        Run.on(PAIR + "fixed a 5;").due("fits 0 5", 1).due("fits 0 4", 1).due("fits 1 5", 0).due("fits 0 1", 1).due("fits 0 10", 1);
+        Run.on(PAIR + "fixed a 5;").due("fits 0 5", 1).due("fits 0 4", 1).due("fits 1 5", 0).due("fits 0 1", 1)
+                .due("fits 0 10", 1);
         // Where it is now doesn't make the others wrong.
         Run.on(PAIR + "fixed a 5;fixed b 5;").due("fits 0 5", 0).due("fits 0 6", 1).due("fits 1 6", 1);
     }
@@ -260,7 +276,8 @@ public final class EdgePlanTest {
     @Says("How many CHANNELS FIT a USER, as if it had none;")
     static void p21_freeCountsThoseThatFit() {
         Run.on(SECOND).due("free 2", 26);
-        Run.on(PAIR + "fixed a 5;").due("free 0", 10).due("free 1", 9).due("block 10", 1).due("free 1", 8).idle("free 0", 9);
+        Run.on(PAIR + "fixed a 5;").due("free 0", 10).due("free 1", 9).due("block 10", 1).due("free 1", 8)
+                .idle("free 0", 9);
         Run.on("band 60;user a 0 0 1 60;").due("free 0", 60);
         Run.on("band 60;user a 0 0 60 60;").due("free 0", 1).due("block 60", 1).due("free 0", 0);
         Run.on("band 4;user a 0 0 1 4;").due("free 0", 4);
@@ -278,7 +295,8 @@ public final class EdgePlanTest {
     @Says("The k-th (0 on) of these;")
     static void p22_freeAt() {
         Run.on(SECOND).row("freeAt 2", 1, 3, 5, 7, 8, 9, 11, 12).due("freeAt 2 25", 30);
-        Run.on(PAIR + "fixed a 1;fixed b 10;").due("freeAt 0 0", 1).due("freeAt 0 8", 9).due("freeAt 1 0", 2).idle("freeAt 1 8", 10);
+        Run.on(PAIR + "fixed a 1;fixed b 10;").due("freeAt 0 0", 1).due("freeAt 0 8", 9).due("freeAt 1 0", 2)
+                .idle("freeAt 1 8", 10);
         Run.on("band 60;user a 0 0 60 60;").due("freeAt 0 0", 60);
     }
 
@@ -290,7 +308,8 @@ public final class EdgePlanTest {
 
     @Says("NONE: no such ones.")
     static void p22_freeAtOfNoSuchUserOrKIsNone() {
-        Run.on(PAIR).refused(-1, "freeAt # 0", -1, 2, 6, 8, Run.BIG, Run.SMALL).refused(-1, "freeAt 0 #", -1, -2, Run.SMALL);
+        Run.on(PAIR).refused(-1, "freeAt # 0", -1, 2, 6, 8, Run.BIG, Run.SMALL)
+                .refused(-1, "freeAt 0 #", -1, -2, Run.SMALL);
         Run.fresh().refused(-1, "freeAt # 0", 0, -1);
     }
 
@@ -300,14 +319,16 @@ public final class EdgePlanTest {
         "makes HITS and CROWDS together (of all USERS) fewest, the least;"})
     static void p23_quietest() {
         // c 3 crowds with a, 4 with a, 5 with both, 6 with b: the least of those with one.
-        Run.on("orders 1;space 2;user a 0 3 1 30;user b 0 3 1 30;user c 0 3 3 6;fixed a 4;fixed b 6;").due("quietest 2", 3)
+        Run.on("orders 1;space 2;user a 0 3 1 30;user b 0 3 1 30;user c 0 3 3 6;fixed a 4;fixed b 6;")
+                .due("quietest 2", 3)
                 .due("block 3", 1).due("quietest 2", 4).due("block 4", 1).due("quietest 2", 6).due("block 6", 1)
                 .due("quietest 2", 5);
         // By 5 d's 9 is hit, though c isn't; by 6 none is.
         Run.on("orders 1;user a 0 3 1 30;user c 0 3 5 6;user d 1 3 1 30;link 0 1 0;fixed a 4;fixed d 9;fixed c 5;")
                 .due("quietest 1", 6).channels(4, 5, 9);
         // The ends of the stretch, and a crowd that counts as much as a hit: 4 crowds, 5 makes 9.
-        Run.on("orders 1;user a 0 3 1 30;user c 0 3 4 5;user d 1 3 1 30;link 0 1 0;fixed a 4;fixed d 9;").due("ifTuned 1 4", 1)
+        Run.on("orders 1;user a 0 3 1 30;user c 0 3 4 5;user d 1 3 1 30;link 0 1 0;fixed a 4;fixed d 9;")
+                .due("ifTuned 1 4", 1)
                 .due("ifTuned 1 5", 1).due("quietest 1", 4);
         Run.on("band 60;orders 0;user a 0 0 60 60;").due("quietest 0", 60);
         Run.on("orders 0;user a 0 0 7 9;").due("quietest 0", 7).due("tune 0 9", 0).idle("quietest 0", 7).channels(9);
@@ -346,7 +367,8 @@ public final class EdgePlanTest {
     static void p24_plannedOfOneThatHasOne() {
         Run.on(PAIR + "fixed a 5;").row("planned", -2, 1).due("tune 0 0", 5).row("planned", 1, 2);
         Run.on(TOO_LONG + "fixed f 60;").due("planned 5", -2).due("planned 0", 37);
-        Run.on(NEVER.replace("user b", "user a 0 0 1 3;user b") + "user d 2 0 1 1;fixed d 1;").due("planned 3", -2).due("planned 0", -3);
+        Run.on(NEVER.replace("user b", "user a 0 0 1 3;user b") + "user d 2 0 1 1;fixed d 1;").due("planned 3", -2)
+                .due("planned 0", -3);
     }
 
     @Says("-3: it GIVES UP;")
@@ -381,7 +403,8 @@ public final class EdgePlanTest {
     @Says("LEAST BAND;")
     static void p26_leastBand() {
         Run.fresh().idle("leastBand", 4);
-        Run.on("orders 0;space 9;user a 0 0 1 30;user b 0 0 1 30;user c 0 0 1 30;").idle("leastBand", 19).due("count 1", 30);
+        Run.on("orders 0;space 9;user a 0 0 1 30;user b 0 0 1 30;user c 0 0 1 30;").idle("leastBand", 19)
+                .due("count 1", 30);
         // Four USERS whose thirds aren't on one another's: 1, 2, 5 and 7.
         Run.on("user a 0 9 1 30;user b 0 9 1 30;user c 0 9 1 30;user d 0 9 1 30;").due("leastBand", 7);
     }
@@ -389,7 +412,8 @@ public final class EdgePlanTest {
     @Says("-2: there is none.")
     static void p26_leastBandIfThereIsNone() {
         Run.on("user a 0 0 5 6;block 5 6;").idle("leastBand", -2).due("block 6", 0).due("leastBand", 6);
-        Run.on("orders 0;user a 0 0 1 1;user b 0 0 1 1;").due("leastBand", -2).due("slots 0 1", 255).due("slots 1 2", 255)
+        Run.on("orders 0;user a 0 0 1 1;user b 0 0 1 1;").due("leastBand", -2).due("slots 0 1", 255)
+                .due("slots 1 2", 255)
                 .due("leastBand", 4);
     }
 
@@ -404,20 +428,25 @@ public final class EdgePlanTest {
     @Says("-2: there is none up to 60,")
     static void p27_grownBeyondSixty() {
         // By 9 the eighth would be 64; by 1, 1 and 10 the sixth is 60 itself.
-        Run.fresh().due("grown 0 0 9 6", 55).due("grown 0 0 9 7", -2).due("grown 0 0 20 3", -2).due("grown 1 1 10 5", 60)
+        Run.fresh().due("grown 0 0 9 6", 55).due("grown 0 0 9 7", -2).due("grown 0 0 20 3", -2)
+                .due("grown 1 1 10 5", 60)
                 .due("grown 1 1 10 6", -2).due("grown 1 1 10 7", -2);
     }
 
     @Says("it would be a ninth one;")
     static void p27_grownNinth() {
-        Run.fresh().due("grown 0 0 1 7", 8).due("grown 0 0 1 8", -2).due("grown 0 0 1 9", -2).due("grown 0 0 1 MAX", -2);
+        Run.fresh().due("grown 0 0 1 7", 8).due("grown 0 0 1 8", -2).due("grown 0 0 1 9", -2)
+                .due("grown 0 0 1 MAX", -2);
     }
 
     @Says("NONE: no such ones.")
     static void p27_grownOfNoSuchOnesIsNone() {
-        Run.fresh().refused(-1, "grown # 0 1 0", -1, 8, Run.BIG, Run.SMALL).refused(-1, "grown 0 # 1 0", -1, 6, Run.BIG, Run.SMALL)
-                .refused(-1, "grown 0 0 # 0", 0, -1, 21, Run.BIG, Run.SMALL).refused(-1, "grown 0 0 1 #", -1, -2, Run.SMALL);
-        Run.fresh().refused(-1, "grown # 0 1 8", 8, -1).refused(-1, "grown 0 # 1 8", 6, -1).refused(-1, "grown 0 0 # 8", 0, 21);
+        Run.fresh().refused(-1, "grown # 0 1 0", -1, 8, Run.BIG, Run.SMALL)
+                .refused(-1, "grown 0 # 1 0", -1, 6, Run.BIG, Run.SMALL)
+                .refused(-1, "grown 0 0 # 0", 0, -1, 21, Run.BIG, Run.SMALL)
+                .refused(-1, "grown 0 0 1 #", -1, -2, Run.SMALL);
+        Run.fresh().refused(-1, "grown # 0 1 8", 8, -1).refused(-1, "grown 0 # 1 8", 6, -1)
+                .refused(-1, "grown 0 0 # 8", 0, 21);
     }
 
     // ---- promise 39

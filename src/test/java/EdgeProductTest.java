@@ -9,6 +9,9 @@ public final class EdgeProductTest {
     /** 20, 21 and 23, POWERS 1, 2 and 4, without LOSS: 27 PRODUCTS, three of each two, six or three of all. */
     private static final String ALL_SORTS = "band 60;orders 7;loss 0 0 0;user a 0 1 1 60;user b 0 2 1 60;"
             + "user c 0 4 1 60;fixed a 20;fixed b 21;fixed c 23;";
+    /** p and q are 18, which HITS the second of 10 and 15; a and b are 12, which HITS both. */
+    private static final String ONE_AND_TWO = "orders 1;guard 3;user p 1 9 1 30;user q 1 9 1 30;user a 0 9 1 30;user b 0 9 1 30;"
+            + "user s 2 0 1 30;user t 2 0 1 30;link 0 2 0;link 1 2 0;fixed p 9;fixed q 9;fixed a 6;fixed b 6;fixed s 10;fixed t 15;";
     /** No PRODUCTS. */
     private static final String CROWD = "orders 0;user a 0 0 1 30;user b 0 0 1 30;fixed a 5;fixed b ";
 
@@ -27,7 +30,8 @@ public final class EdgeProductTest {
 
     @Says({"A USER has a CHANNEL (at first the one that is fixed),", "or none."})
     static void terms_aUserHasAtFirstTheFixedChannelOrNone() {
-        Run.on("user a 0 0 1 1;user b 0 0 1 1;fixed b 30;").channels(0, 30).due("count 6", 1).due("tune 0 9", 0).channels(9, 30);
+        Run.on("user a 0 0 1 1;user b 0 0 1 1;fixed b 30;").channels(0, 30).due("count 6", 1).due("tune 0 9", 0)
+                .channels(9, 30);
     }
 
     @Says("PRODUCTS, of USERS of one SITE")
@@ -40,7 +44,8 @@ public final class EdgeProductTest {
 
     @Says("that have CHANNELS,")
     static void terms_productsAreOfUsersThatHaveChannels() {
-        Run.on(SECOND).due("products 0", 6).due("tune 1 0", 6).due("products 0", 2).due("tune 0 0", 4).due("products 0", 0);
+        Run.on(SECOND).due("products 0", 6).due("tune 1 0", 6).due("products 0", 2).due("tune 0 0", 4)
+                .due("products 0", 0);
         Run.on(ALL_SORTS).due("products 0", 27).due("tune 2 0", 23).due("products 0", 6).due("bySort 3 0", 0)
                 .due("bySort 5 0", 0);
     }
@@ -50,8 +55,10 @@ public final class EdgeProductTest {
         // a and b lose theirs one by one, c keeps its own: what was asked of more PRODUCTS isn't answered of fewer.
         Run run = Run.on(SECOND).due("worst", 0).due("loudest", 0).due("hits 2", 1).due("tune 0 0", 4);
         run.due("products 0", 2).due("hits 2", 0).due("hitBy 2 0", -2).due("when 2", 0).due("tune 1 0", 6);
-        run.due("products 0", 0).due("hits 2", 0).due("hitBy 2 0", -2).due("when 2", 0).due("clearance 2", -2).due("worst", -2)
-                .due("loudest", -2).row("rank", 0, 1, 2).row("bySort 0", 0, 0, 0).due("product 0 0", -1000).due("left", 0)
+        run.due("products 0", 0).due("hits 2", 0).due("hitBy 2 0", -2).due("when 2", 0).due("clearance 2", -2)
+                .due("worst", -2)
+                .due("loudest", -2).row("rank", 0, 1, 2).row("bySort 0", 0, 0, 0).due("product 0 0", -1000)
+                .due("left", 0)
                 .due("turned -1", 0);
     }
 
@@ -61,7 +68,8 @@ public final class EdgeProductTest {
         Run.on("band 60;orders 7;user a 0 30 1 60;user b 0 30 1 60;fixed a 20;fixed b 21;").row("bySort 3", 0, 0, 0)
                 .row("bySort 5", 0, 0, 0).due("products 0", 6);
         // USERS are unlike, though they have one CHANNEL: 5 and 5, twice 5 less 5, three times 5 less twice 5.
-        Run run = Run.on("orders 7;loss 0 0 0;user a 0 0 1 30;user b 0 0 1 30;fixed a 5;fixed b 5;").due("products 0", 5);
+        Run run = Run.on("orders 7;loss 0 0 0;user a 0 0 1 30;user b 0 0 1 30;fixed a 5;fixed b 5;")
+                .due("products 0", 5);
         lists(run, 0, new int[][] {{0, 0, 1, -2, 10}, {2, 0, 1, -2, 5}, {2, 1, 0, -2, 5}, {4, 0, 1, -2, 5}, {4, 1, 0, -2, 5}});
     }
 
@@ -71,7 +79,8 @@ public final class EdgeProductTest {
                 .due("slots 1 254", 3).due("products 0", 4).due("slots 0 128", 1).due("products 0", 6)
                 .due("slots 1 127", 254).due("products 0", 4);
         // Each two have one, all three have none.
-        Run.on(ALL_SORTS + "slots a 3;slots b 6;slots c 5;").due("bySort 2 0", 6).due("bySort 3 0", 0).due("bySort 5 0", 0)
+        Run.on(ALL_SORTS + "slots a 3;slots b 6;slots c 5;").due("bySort 2 0", 6).due("bySort 3 0", 0)
+                .due("bySort 5 0", 0)
                 .due("bySort 4 0", 6).due("slots 2 7", 5).due("bySort 3 0", 3).due("bySort 5 0", 6);
         Run.on(ALL_SORTS + "slots a 128;slots b 129;slots c 192;").due("bySort 3 0", 3).due("slots 2 65", 192)
                 .due("bySort 3 0", 0).due("bySort 2 0", 4);
@@ -124,10 +133,12 @@ public final class EdgeProductTest {
                 .due("product 1 4", 1).due("tune 0 5", 4).due("products 0", 0).due("tune 0 6", 5).due("products 0", 1)
                 .due("product 0 4", 1);
         Run.on("band 60;" + two).due("tune 0 30", 0).due("tune 1 30", 0).due("products 0", 1).due("product 0 4", 60)
-                .due("tune 0 31", 30).due("products 0", 1).due("product 0 0", 1).due("tune 1 60", 30).due("tune 0 1", 31)
+                .due("tune 0 31", 30).due("products 0", 1).due("product 0 0", 1).due("tune 1 60", 30)
+                .due("tune 0 1", 31)
                 .due("products 0", 1).due("product 0 4", 59);
         // Twice 2 less 4 is 0; twice 30 less 1 is 59; three times 20 less twice 1 is 58, three times 60 is far beyond.
-        Run.on("band 60;orders 2;user a 0 9 1 9;user b 0 9 1 9;fixed a 2;fixed b 4;").due("products 0", 1).due("product 0 4", 6);
+        Run.on("band 60;orders 2;user a 0 9 1 9;user b 0 9 1 9;fixed a 2;fixed b 4;").due("products 0", 1)
+                .due("product 0 4", 6);
         Run.on("band 60;orders 6;user a 0 9 1 9;user b 0 9 1 9;fixed a 60;fixed b 60;").due("products 0", 4);
         Run.on("band 59;orders 6;user a 0 9 1 9;user b 0 9 1 9;fixed a 59;fixed b 58;").due("products 0", 2)
                 .due("product 0 4", 57).due("product 1 4", 56);
@@ -153,7 +164,8 @@ public final class EdgeProductTest {
     static void terms_levelIsPowersAsOftenAsTheyAreInItLessLoss() {
         // Powers 1, 2 and 4 without LOSS are in the lists of sorts above; with LOSS 10, 20 and 30 of the ORDERS:
         Run run = Run.on(ALL_SORTS.replace("loss 0 0 0", "loss 10 20 30"));
-        run.due("product 0 5", 3 - 10).due("product 3 5", 3 - 10).due("product 6 5", 4 - 20).due("product 12 5", 7 - 20);
+        run.due("product 0 5", 3 - 10).due("product 3 5", 3 - 10).due("product 6 5", 4 - 20)
+                .due("product 12 5", 7 - 20);
         run.due("product 15 5", 7 - 30).due("product 21 5", 12 - 30);
         // The greatest and the least there are.
         Run.on("orders 4;loss 0 0 0;user a 0 30 1 30;user b 0 30 1 30;fixed a 9;fixed b 9;").due("product 0 5", 150);
@@ -207,11 +219,14 @@ public final class EdgeProductTest {
     @Says("who isn't in it")
     static void terms_whoIsInAProductIsntHitByIt() {
         // Of two, both are in all; of three, all are in those of sorts 3 and 5.
-        Run.on("band 60;orders 7;guard 5;loss 0 0 0;user a 0 1 1 60;user b 0 2 1 60;fixed a 20;fixed b 21;").due("products 0", 6)
+        Run.on("band 60;orders 7;guard 5;loss 0 0 0;user a 0 1 1 60;user b 0 2 1 60;fixed a 20;fixed b 21;")
+                .due("products 0", 6)
                 .due("products 2", 0).due("hits 0", 0).due("hits 1", 0);
-        Run.on("guard 5;" + ALL_SORTS).due("bySort 3 2", 0).due("bySort 5 2", 0).due("bySort 3 1", 3).due("bySort 5 1", 6);
+        Run.on("guard 5;" + ALL_SORTS).due("bySort 3 2", 0).due("bySort 5 2", 0).due("bySort 3 1", 3)
+                .due("bySort 5 1", 6);
         // Sort 2: 19 of a and b, 17 of a and c, 22 of b and a, 26 of c and a, 25 of c and b: only who isn't in it.
-        Run.on("guard 5;" + ALL_SORTS).due("product 6 6", 4).due("product 7 6", 2).due("product 8 6", 4).due("product 10 6", 2)
+        Run.on("guard 5;" + ALL_SORTS).due("product 6 6", 4).due("product 7 6", 2).due("product 8 6", 4)
+                .due("product 10 6", 2)
                 .due("product 11 6", 1);
     }
 
@@ -228,13 +243,15 @@ public final class EdgeProductTest {
         String far = APART.replace("fixed b 6", "fixed b 5").replace("fixed a 4", "fixed a 5") + "link 0 2 0;";
         for (int guard = 0; guard <= 5; guard++) {
             Run.on("guard " + guard + ";" + far).due("products 0", 1).due("hits 2", 1)
-                    .due("tune 2 " + (10 - guard), 10).due("hits 2", 1).due("tune 2 " + (9 - guard), 10 - guard).due("hits 2", 0)
+                    .due("tune 2 " + (10 - guard), 10).due("hits 2", 1).due("tune 2 " + (9 - guard), 10 - guard)
+                    .due("hits 2", 0)
                     .due("tune 2 " + (10 + guard), 9 - guard).due("hits 2", 1)
                     .due("tune 2 " + (11 + guard), 10 + guard).due("hits 2", 0);
         }
         // At the ends: a PRODUCT on 1, and one on 60.
         Run.on("guard 5;band 60;orders 1;user a 0 9 1 60;user b 0 9 1 60;user c 1 9 1 60;link 0 1 0;fixed a 30;fixed b 31;")
-                .due("tune 2 6", 0).due("hits 2", 1).due("tune 2 7", 6).due("hits 2", 0).due("tune 2 1", 7).due("hits 2", 1)
+                .due("tune 2 6", 0).due("hits 2", 1).due("tune 2 7", 6).due("hits 2", 0).due("tune 2 1", 7)
+                .due("hits 2", 1)
                 .due("tune 2 60", 1).due("hits 2", 0).due("tune 1 30", 31).due("product 0 4", 60).due("hits 2", 1)
                 .due("tune 2 55", 60).due("hits 2", 1).due("tune 2 54", 55).due("hits 2", 0);
     }
@@ -274,10 +291,12 @@ public final class EdgeProductTest {
 
     @Says("Two USERS of one SITE with CHANNELS and a SLOT in common CROWD, if these are nearer than space.")
     static void terms_twoCrowdIfNearerThanSpace() {
-        Run.on(CROWD + "5;").due("crowds 0", 2).due("crowds 1", 1).due("tune 1 6", 5).due("crowds 0", 0).due("tune 1 4", 6)
+        Run.on(CROWD + "5;").due("crowds 0", 2).due("crowds 1", 1).due("tune 1 6", 5).due("crowds 0", 0)
+                .due("tune 1 4", 6)
                 .due("crowds 0", 0);
         Run.on("space 20;" + CROWD + "24;").due("crowds 0", 2).due("tune 1 25", 24).due("crowds 0", 0);
-        Run.on("space 20;" + CROWD + "24;").due("tune 0 30", 5).due("crowds 0", 2).due("tune 1 11", 24).due("crowds 0", 2)
+        Run.on("space 20;" + CROWD + "24;").due("tune 0 30", 5).due("crowds 0", 2).due("tune 1 11", 24)
+                .due("crowds 0", 2)
                 .due("tune 1 10", 11).due("crowds 0", 0).due("crowds 1", 0);
         // Of one SITE, with CHANNELS, with a SLOT in common.
         Run.on("orders 0;user a 0 0 1 30;user b 1 0 1 30;link 0 1 0;fixed a 5;fixed b 5;").due("crowds 0", 0);
@@ -300,8 +319,10 @@ public final class EdgeProductTest {
     @Says("All is CLEAN, if each USER with a CHANNEL is RIGHT,")
     static void terms_cleanIfEachWithAChannelIsRight() {
         Run.on("orders 0;user a 0 0 5 8;user b 1 0 5 8;block 7 7;").due("clean", 1).due("tune 1 4", 0).due("clean", 0)
-                .due("tune 1 5", 4).due("clean", 1).due("tune 1 8", 5).due("clean", 1).due("tune 1 9", 8).due("clean", 0)
-                .due("tune 1 7", 9).due("clean", 0).due("tune 1 0", 7).due("clean", 1).due("tune 0 9", 0).due("clean", 0);
+                .due("tune 1 5", 4).due("clean", 1).due("tune 1 8", 5).due("clean", 1).due("tune 1 9", 8)
+                .due("clean", 0)
+                .due("tune 1 7", 9).due("clean", 0).due("tune 1 0", 7).due("clean", 1).due("tune 0 9", 0)
+                .due("clean", 0);
     }
 
     @Says("none CROWD,")
@@ -315,7 +336,8 @@ public final class EdgeProductTest {
         Run.on(SECOND).due("clean", 0).due("tune 2 11", 10).due("clean", 1);
         Run.on(APART + "link 0 2 1;").due("clean", 0);
         Run.on(APART + "link 0 2 2;").due("clean", 1);
-        Run.on("guard 1;" + APART + "link 0 2 0;").due("tune 2 11", 10).due("clean", 0).due("tune 2 12", 11).due("clean", 1);
+        Run.on("guard 1;" + APART + "link 0 2 0;").due("tune 2 11", 10).due("clean", 0).due("tune 2 12", 11)
+                .due("clean", 1);
         Run.on(ALL_SORTS).due("clean", 0).due("power 0 0", 1).due("clean", 0).due("tune 2 24", 23).due("clean", 1);
     }
 
@@ -328,14 +350,16 @@ public final class EdgeProductTest {
         // Six of one SITE make the most there can be: 15, 15, 30, 60, 30 and 120, less what isn't 1 .. BAND.
         Run.on("band 60;orders 7;user a 0 0 1 60;user b 0 0 1 60;user c 0 0 1 60;user d 0 0 1 60;user e 0 0 1 60;"
                 + "user f 0 0 1 60;fixed a 25;fixed b 26;fixed c 27;fixed d 28;fixed e 29;fixed f 30;")
-                .due("bySort 0 0", 15).due("bySort 1 0", 15).due("bySort 2 0", 30).due("bySort 3 0", 60).due("bySort 4 0", 30)
+                .due("bySort 0 0", 15).due("bySort 1 0", 15).due("bySort 2 0", 30).due("bySort 3 0", 60)
+                .due("bySort 4 0", 30)
                 .due("bySort 5 0", 120).due("products 0", 270).due("products 1", 0).due("product 269 0", 5)
                 .due("product 270 0", -1000);
     }
 
     @Says("that are HEARD (1),")
     static void p14_productsThatAreHeard() {
-        Run.on(SECOND).due("products 1", 6).due("power 2 1", 3).due("products 1", 2).due("power 2 2", 1).due("products 1", 6)
+        Run.on(SECOND).due("products 1", 6).due("power 2 1", 3).due("products 1", 2).due("power 2 2", 1)
+                .due("products 1", 6)
                 .due("power 0 0", 3).due("power 1 0", 3).due("power 2 0", 2).due("products 1", 0);
     }
 
@@ -350,7 +374,8 @@ public final class EdgeProductTest {
     @Says("couples that CROWD (3);")
     static void p14_couplesThatCrowd() {
         Run.on(CROWD + "5;").due("products 3", 1);
-        Run.on("space 2;" + CROWD + "6;user c 0 0 1 30;fixed c 7;").due("products 3", 2).due("tune 2 6", 7).due("products 3", 3);
+        Run.on("space 2;" + CROWD + "6;user c 0 0 1 30;fixed c 7;").due("products 3", 2).due("tune 2 6", 7)
+                .due("products 3", 3);
         String six = "orders 0;user a 0 0 1 30;user b 0 0 1 30;user c 0 0 1 30;user d 0 0 1 30;user e 0 0 1 30;user f 0 0 1 30;"
                 + "fixed a 1;fixed b 1;fixed c 1;fixed d 1;fixed e 1;fixed f 1;";
         Run.on(six).due("products 3", 15).due("tune 0 2", 1).due("products 3", 10);
@@ -428,7 +453,8 @@ public final class EdgeProductTest {
         Run.on(SECOND).due("hits 0", 1).due("hits 1", 1).due("hits 2", 1).due("tune 2 11", 10).due("hits 2", 0);
         // 1 and 9, 2 and 8 are e's 10.
         Run.on("orders 1;user a 0 9 1 30;user b 0 9 1 30;user c 0 9 1 30;user d 0 9 1 30;user e 1 9 1 30;link 0 1 0;"
-                + "fixed a 1;fixed b 9;fixed c 2;fixed d 8;fixed e 10;").due("hits 4", 2).due("tune 4 17", 10).due("hits 4", 1)
+                + "fixed a 1;fixed b 9;fixed c 2;fixed d 8;fixed e 10;").due("hits 4", 2).due("tune 4 17", 10)
+                .due("hits 4", 1)
                 .due("tune 4 18", 17).due("hits 4", 0);
     }
 
@@ -462,7 +488,8 @@ public final class EdgeProductTest {
 
     @Says("NONE: no such ones.")
     static void p17_hitByOfNoSuchUserOrKIsNone() {
-        Run.on(SECOND).refused(-1, "hitBy # 0", -1, 3, 6, 32, Run.BIG, Run.SMALL).refused(-1, "hitBy 0 #", -1, -2, Run.SMALL);
+        Run.on(SECOND).refused(-1, "hitBy # 0", -1, 3, 6, 32, Run.BIG, Run.SMALL)
+                .refused(-1, "hitBy 0 #", -1, -2, Run.SMALL);
         Run.fresh().refused(-1, "hitBy # 0", 0, -1);
     }
 
@@ -488,7 +515,8 @@ public final class EdgeProductTest {
         Run.fresh().idle("clean", 1);
         Run.on(SECOND).idle("clean", 0).due("tune 0 0", 4).due("clean", 1).due("undo", 0).due("clean", 0);
         Run.on(CROWD + "5;").due("clean", 0);
-        Run.on("user a 0 0 2 2;fixed a 1;").due("clean", 0).due("tune 0 2", 1).due("clean", 1).due("tune 0 3", 2).due("clean", 0);
+        Run.on("user a 0 0 2 2;fixed a 1;").due("clean", 0).due("tune 0 2", 1).due("clean", 1).due("tune 0 3", 2)
+                .due("clean", 0);
     }
 
     // ---- promise 28
@@ -497,13 +525,18 @@ public final class EdgeProductTest {
     static void p28_worstMakesMostHitsAndIsTheFirst() {
         Run.on(SECOND).due("worst", 0).due("power 0 1", 3).due("worst", 1);
         // d is of no PRODUCT; of a, b and c the PRODUCT of b and c is on d's 16, too.
-        Run.on(SECOND + "user d 1 3 1 30;fixed d 16;link 0 1 0;").due("products 2", 4).due("worst", 1).due("tune 3 14", 16)
+        Run.on(SECOND + "user d 1 3 1 30;fixed d 16;link 0 1 0;").due("products 2", 4).due("worst", 1)
+                .due("tune 3 14", 16)
                 .due("worst", 0).due("tune 3 10", 14).due("worst", 0);
+        // HITS count, not PRODUCTS.
+        Run.on(ONE_AND_TWO).due("products 2", 3).due("worst", 2);
         // Who is hit isn't who makes it: a and b hit c.
-        Run.on("orders 1;user c 1 3 1 30;user a 0 3 1 30;user b 0 3 1 30;link 0 1 0;fixed a 4;fixed b 6;fixed c 10;").due("worst", 1);
+        Run.on("orders 1;user c 1 3 1 30;user a 0 3 1 30;user b 0 3 1 30;link 0 1 0;fixed a 4;fixed b 6;fixed c 10;")
+                .due("worst", 1);
         // A c of a PRODUCT makes it as well: 10 and 12 less 9 is d's 13; twice b less c, 24 - 9, is e's 15.
         Run.on("user a 0 9 1 30;user b 0 9 1 30;user c 0 9 1 30;user d 1 9 1 30;user e 1 9 1 30;link 0 1 0;"
-                + "fixed a 10;fixed b 12;fixed c 9;fixed d 13;fixed e 15;slots e 1;").due("products 2", 2).due("worst", 1)
+                + "fixed a 10;fixed b 12;fixed c 9;fixed d 13;fixed e 15;slots e 1;").due("products 2", 2)
+                .due("worst", 1)
                 .due("rank 1", 2).due("rank 2", 0);
     }
 
@@ -518,19 +551,23 @@ public final class EdgeProductTest {
 
     @Says({"Of a sort 0 .. 5,", "what 0 how many PRODUCTS, 1 that are HEARD, 2 HITS;"})
     static void p30_bySort() {
-        Run.on(SECOND).row("bySort 0", 3, 3, 1).row("bySort 1", 3, 3, 2).row("bySort 2", 0, 0, 0).row("bySort 5", 0, 0, 0)
+        Run.on(SECOND).row("bySort 0", 3, 3, 1).row("bySort 1", 3, 3, 2).row("bySort 2", 0, 0, 0)
+                .row("bySort 5", 0, 0, 0)
                 .due("power 0 1", 3).row("bySort 0", 3, 1, 0).row("bySort 1", 3, 1, 1);
-        Run.on(ALL_SORTS).row("bySort 4", 6, 6, 1).row("bySort 5", 6, 6, 0).row("bySort 3", 3, 3, 0).row("bySort 2", 6, 6, 0);
+        Run.on(ALL_SORTS).row("bySort 4", 6, 6, 1).row("bySort 5", 6, 6, 0).row("bySort 3", 3, 3, 0)
+                .row("bySort 2", 6, 6, 0);
         // Each USER that a PRODUCT HITS counts.
         Run.on(APART + "user d 1 3 1 30;fixed d 10;link 0 1 0;link 0 2 0;").row("bySort 0", 1, 1, 2);
-        Run.on(SECOND.replace("orders 1", "orders 2").replace(" 3 1 30", " 9 1 30") + "user d 1 0 1 30;fixed d 8;link 0 1 0;")
+        Run.on(SECOND.replace("orders 1", "orders 2").replace(" 3 1 30", " 9 1 30")
+                + "user d 1 0 1 30;fixed d 8;link 0 1 0;")
                 .row("bySort 2", 5, 5, 1).row("bySort 3", 2, 2, 1);
         Run.fresh().row("bySort 0", 0, 0, 0);
     }
 
     @Says("NONE: no such ones.")
     static void p30_bySortOfNoSuchSortOrWhatIsNone() {
-        Run.on(SECOND).refused(-1, "bySort # 0", -1, 6, 7, Run.BIG, Run.SMALL).refused(-1, "bySort 0 #", -1, 3, 4, Run.BIG, Run.SMALL);
+        Run.on(SECOND).refused(-1, "bySort # 0", -1, 6, 7, Run.BIG, Run.SMALL)
+                .refused(-1, "bySort 0 #", -1, 3, 4, Run.BIG, Run.SMALL);
     }
 
     // ---- promise 31
@@ -582,7 +619,8 @@ public final class EdgeProductTest {
     @Says("How far the CHANNEL of a USER is from the nearest PRODUCT that would HIT it, were guard great enough (0 .. 59);")
     static void p36_clearanceIsHowFarTheNearestIs() {
         // a and b are 10, b less a is 2.
-        Run.on(APART + "link 0 2 1;").due("clearance 2", 0).due("tune 2 11", 10).due("clearance 2", 1).due("tune 2 6", 11)
+        Run.on(APART + "link 0 2 1;").due("clearance 2", 0).due("tune 2 11", 10).due("clearance 2", 1)
+                .due("tune 2 6", 11)
                 .due("clearance 2", 4).due("tune 2 5", 6).due("clearance 2", 3).due("tune 2 1", 5).due("clearance 2", 1)
                 .due("tune 2 30", 1).due("clearance 2", 20);
         // Whatever guard is.
@@ -601,7 +639,8 @@ public final class EdgeProductTest {
         Run.on(APART).due("clearance 2", -2);
         Run.on(APART + "link 0 2 2;").due("clearance 2", -2);
         Run.on(SECOND).due("power 0 1", 3).due("clearance 2", -2).due("power 0 2", 1).due("clearance 2", 0);
-        Run.on(SECOND + "slots a 3;slots b 6;slots c 5;").due("clearance 2", -2).due("slots 2 2", 5).due("clearance 2", 0);
+        Run.on(SECOND + "slots a 3;slots b 6;slots c 5;").due("clearance 2", -2).due("slots 2 2", 5)
+                .due("clearance 2", 0);
     }
 
     @Says("it has no CHANNEL;")
@@ -623,7 +662,8 @@ public final class EdgeProductTest {
         Run.on("orders 0;user a 0 0 1 30;user b 0 0 1 30;user c 0 0 1 30;user d 1 0 1 30;fixed a 10;fixed b 14;fixed c 6;"
                 + "fixed d 10;").row("nearest", 1, 0, 0, -2).due("tune 2 7", 6).row("nearest", 2, 0, 0)
                 .due("tune 1 13", 14).due("nearest 0", 1).due("tune 1 10", 13).row("nearest", 1, 0, 0);
-        Run.on("band 60;orders 0;user a 2 0 1 60;user b 2 0 1 60;fixed a 1;fixed b 60;slots a 1;slots b 2;").row("nearest", 1, 0);
+        Run.on("band 60;orders 0;user a 2 0 1 60;user b 2 0 1 60;fixed a 1;fixed b 60;slots a 1;slots b 2;")
+                .row("nearest", 1, 0);
     }
 
     @Says("-2: there is none,")
@@ -649,7 +689,8 @@ public final class EdgeProductTest {
     @Says("The greatest space 1 .. 20 by which none CROWD;")
     static void p38_mostSpace() {
         Run.fresh().due("mostSpace", 20);
-        Run.on(CROWD + "6;").due("mostSpace", 1).due("tune 1 7", 6).due("mostSpace", 2).due("tune 1 24", 7).due("mostSpace", 19)
+        Run.on(CROWD + "6;").due("mostSpace", 1).due("tune 1 7", 6).due("mostSpace", 2).due("tune 1 24", 7)
+                .due("mostSpace", 19)
                 .due("tune 1 25", 24).due("mostSpace", 20).due("tune 1 26", 25).due("mostSpace", 20).due("tune 1 0", 26)
                 .due("mostSpace", 20);
         // Whatever space is told; it stays.
@@ -669,6 +710,7 @@ public final class EdgeProductTest {
         Run.on(SECOND).row("rank", 0, 1, 2).due("power 0 1", 3).row("rank", 1, 2, 0);
         Run.on(SECOND + "user d 1 3 1 30;fixed d 16;link 0 1 0;").row("rank", 1, 2, 0, 3);
         // One that HITS two counts twice.
+        Run.on(ONE_AND_TWO).row("rank", 2, 3, 0, 1, 4, 5, -1);
         Run.on("orders 1;user d 1 3 1 30;user a 0 3 1 30;user b 0 3 1 30;user c 1 3 1 30;link 0 1 0;fixed a 4;fixed b 6;"
                 + "fixed c 10;fixed d 10;").row("rank", 1, 2, 0, 3, -1);
         Run.on(CROWD + "6;").row("rank", 0, 1, -1);

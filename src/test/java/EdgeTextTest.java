@@ -251,7 +251,8 @@ public final class EdgeTextTest {
 
     @Says("name, SITE 0 .. 2,")
     static void terms_siteIsZeroToTwo() {
-        good("user a 0 0 1 1;user b 1 0 1 1;user c 2 0 1 1;", 3).due("user 0 0", 0).due("user 1 0", 1).due("user 2 0", 2);
+        good("user a 0 0 1 1;user b 1 0 1 1;user c 2 0 1 1;", 3).due("user 0 0", 0).due("user 1 0", 1)
+                .due("user 2 0", 2);
         bad("user a 3 0 1 1;", 2, 7);
     }
 
@@ -713,7 +714,8 @@ public final class EdgeTextTest {
         Run.fresh().refused(-1, "named #", 0, 33554432, Run.BIG, Run.SMALL, -1);
         // b; a at the lowest place; nothing; ac; a with the bits 30 and 31; 27 and 31, which are no letters; 0 amid letters.
         Run.on("user a 0 0 1 1;user ab 0 0 1 1;").refused(-1, "named #", 67108864, 1, 0, 36700160,
-                33554432 + (1 << 30), 33554432 + Run.SMALL, 27 << 25, 31 << 25, 1 << 25 | 2 << 15, Run.BIG, Run.SMALL, -1)
+                33554432 + (1 << 30), 33554432
+                        + Run.SMALL, 27 << 25, 31 << 25, 1 << 25 | 2 << 15, Run.BIG, Run.SMALL, -1)
                 .due("named 33554432", 0);
     }
 }
