@@ -52,14 +52,14 @@ public final class EdgeProductTest {
 
     @Says("that have CHANNELS,")
     static void terms_nothingIsLeftOfProductsThatWere() {
-        // a and b lose theirs one by one, c keeps its own: what was asked of more PRODUCTS isn't answered of fewer.
-        Run run = Run.on(SECOND).due("worst", 0).due("loudest", 0).due("hits 2", 1).due("tune 0 0", 4);
-        run.due("products 0", 2).due("hits 2", 0).due("hitBy 2 0", -2).due("when 2", 0).due("tune 1 0", 6);
-        run.due("products 0", 0).due("hits 2", 0).due("hitBy 2 0", -2).due("when 2", 0).due("clearance 2", -2)
-                .due("worst", -2)
+        // a and b have theirs, make HITS, and have none again: nothing is answered of what was.
+        Run run = Run.on(SECOND.replace("fixed a 4;fixed b 6;", "")).due("keep", 1).due("tune 0 4", 0).due("tune 1 6", 0);
+        run.due("products 2", 3).due("product 0 6", 4).due("back", 1);
+        run.due("hits 2", 0).due("hitBy 2 0", -2).due("when 2", 0).due("clearance 2", -2).due("worst", -2)
                 .due("loudest", -2).row("rank", 0, 1, 2).row("bySort 0", 0, 0, 0).due("product 0 0", -1000)
-                .due("left", 0)
-                .due("turned -1", 0);
+                .due("products 0", 0).due("products 1", 0).due("products 2", 0).due("left", 0).due("turned -1", 0);
+        run.due("tune 0 4", 0).due("tune 1 6", 0).due("products 0", 6).due("tune 0 0", 4).due("products 0", 2)
+                .due("hits 2", 0).due("hitBy 2 0", -2).due("worst", -2);
     }
 
     @Says("all unlike ones,")
