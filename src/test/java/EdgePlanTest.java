@@ -40,6 +40,11 @@ public final class EdgePlanTest {
         // What isn't CLEAN by the others isn't with it.
         Run.on("orders 0;user a 0 0 1 1;user b 1 0 1 9;fixed a 2;").due("fits 1 5", 0).due("free 1", 0)
                 .due("complete", -2);
+        // 10 less 8 is 2, of LEVEL 4 less LOSS; twice 10 less 8 is 12, of 6; three times 10 less twice 8 is 14, of 10.
+        String losses = "orders 7;user a 0 2 1 30;user b 0 2 1 30;user c 0 2 1 30;fixed a 10;fixed b 8;loss ";
+        Run.on(losses + "4 7 11;").due("fits 2 2", 0).due("fits 2 12", 1).due("fits 2 14", 1);
+        Run.on(losses + "5 6 11;").due("fits 2 2", 1).due("fits 2 12", 0).due("fits 2 14", 1);
+        Run.on(losses + "5 7 10;").due("fits 2 2", 1).due("fits 2 12", 1).due("fits 2 14", 0);
     }
 
     @Says("SEARCH for some USERS, without CHANNELS now, all others as they are:")
@@ -183,6 +188,23 @@ public final class EdgePlanTest {
         Run.on(trio("user z 0 0 31 31;", 50)).due("leastBand", -2);
     }
 
+    @Says("the least n 4 .. 60")
+    static void terms_leastBandMayBeAboveBand() {
+        // b has its first CHANNEL, if b and c, one above a's, are beyond n; f is too near that one, and d and e, who
+        // never hinder anybody, have 900 couples of CHANNELS: the SEARCH gives up. With n one above a's, b and c HIT a,
+        // b has its second CHANNEL, and f isn't too near.
+        String late = "guard 1;space 3;orders 1;link 0 1 0;user a 0 0 30 30;user b 1 3 20 21;user c 1 3 11 11;"
+                + "user d 2 0 1 30;user e 2 0 1 30;user f 1 0 18 18;slots d 1;slots e 2;";
+        Run.on(late).due("complete", -3).due("leastBand", 31).due("count 1", 30);
+        String last = late.replace("30 30", "59 59").replace("20 21", "50 51").replace("11 11", "10 10")
+                .replace("18 18", "48 48");
+        Run.on("band 59;" + last).due("complete", -3).due("leastBand", 60);
+        // 51 and 10 are 61, which no n reaches; 50 and 10 are not beyond a BAND of 60.
+        Run.on("band 60;" + last.replace("59 59", "60 60").replace("50 51", "51 52").replace("48 48", "49 49"))
+                .due("complete", -3).due("leastBand", -2);
+        Run.on("band 60;" + last).due("complete", 8).channels(59, 51, 10, 1, 1, 48);
+    }
+
     @Says({"if all HIGHS were n at most,", "CHANNELS above n were BLOCKED,"})
     static void terms_leastBandLowersHighs() {
         Run.on("orders 0;user a 0 0 3 30;user b 0 0 3 30;").due("leastBand", 4);
@@ -217,6 +239,9 @@ public final class EdgePlanTest {
         Run.fresh().row("grown 0 0 1", 1, 2, 3, 4, 5, 6, 7, 8).row("grown 0 0 8", 1, 9, 17, 25, 33, 41, 49, 57);
         // 3 is 1 and 2; 5 and 6 are 4 and 1, 4 and 2; 8 is 7 and 1, 9 is 7 and 2; and so on by three.
         Run.fresh().row("grown 1 0 1", 1, 2, 4, 7, 10, 13, 16, 19);
+        // 34, 35 and 38 are 33 and 1, 2, 5; 37 is twice 23 and 1 less twice 5, 39 is twice 8 and 33 less twice 5; with 36
+        // the eighth one itself would make twice 33 and 8 less twice 36, which is 2.
+        Run.fresh().row("grown 5 0 1", 1, 2, 5, 8, 12, 23, 33, 40);
     }
 
     @Says("by which a set of USERS of one SITE,")
@@ -250,6 +275,10 @@ public final class EdgePlanTest {
         run.due("free 0", 0).row("grown 2 1 15", 1, 16, 33).due("free 0", 0).row("grown 0 0 1", 1, 2, 3, 4, 5, 6, 7, 8);
         // Guard: 1 and 2 make 3, and 1; b less 1, b less 2 and so on must be farther than 5: 9 less 2 is 7.
         run.row("grown 1 5 1", 1, 2, 9);
+        // Of 1, 12 and 28 there are 39, 44, 50 and 55, which HIT up to 59, and three times 28 less twice 12, 60.
+        run.row("grown 6 4 11", 1, 12, 28, -2);
+        // Of 1, 11 and 21 there are 31, 41 and 51, which HIT up to 56; three times 21 less twice 1, 61, is none.
+        run.row("grown 4 5 10", 1, 11, 21, 57, -2);
     }
 
     // ---- promise 20
