@@ -210,6 +210,11 @@ public final class EdgeChanceTest {
                 .due("left", 0)
                 .row("turned", 0, 0, 1);
         Run.on(APART + "link 0 2 0;").due("power 0 30", 3).due("power 1 30", 3).due("left", 1);
+        // CROWDS and what isn't RIGHT don't matter: a and then b are turned down from 3 to 1.
+        for (String text : new String[] {"space 3;" + SECOND, SECOND + "block 1 30;", SECOND.replace(" 1 30;", " 30 30;")}) {
+            Run.on(text).due("clean", 0).due("turned -1", 4).row("turned", 1, 1, 3).due("left", 0);
+        }
+        Run.on(CROWD + "5;").due("products 3", 1).due("turned -1", 0).due("left", 0);
     }
 
     // ---- promise 34
@@ -221,6 +226,8 @@ public final class EdgeChanceTest {
         String text = SECOND + "user d 1 0 1 30;fixed d 29;";
         Run.on(text).idle("bestSwap", 3).due("tune 3 16", 29).due("bestSwap", 9).due("tune 3 0", 16)
                 .due("bestSwap", -2);
+        // Also where they are not RIGHT then.
+        Run.on(text.replace("a 0 3 1 30", "a 0 3 4 4")).due("bestSwap", 3);
         // a and b have no SLOT in common, e crowds with both: a or b for f leaves one, e for f none.
         Run.on("orders 0;user a 0 0 1 30;user b 0 0 1 30;user c 2 0 1 30;user d 2 0 1 30;user e 0 0 1 30;user f 1 0 1 30;"
                 + "slots a 1;slots b 2;fixed a 5;fixed b 5;fixed e 5;fixed f 20;").due("products 3", 2)
@@ -271,6 +278,9 @@ public final class EdgeChanceTest {
         Run.on("loss 61 0 0;" + SECOND).due("power 1 30", 3).due("mostPower 0", 30);
         Run.on("loss 60 0 0;" + APART + "link 0 2 0;").due("power 1 30", 3).due("mostPower 0", 29);
         Run.on("loss 60 0 0;" + APART + "link 0 2 1;").due("power 1 30", 3).due("mostPower 0", 30);
+        // CROWDS and what isn't RIGHT don't matter.
+        Run.on(CROWD + "5;").due("clean", 0).due("mostPower 0", 30);
+        Run.on("user a 0 0 1 1;fixed a 5;").due("clean", 0).due("mostPower 0", 30);
     }
 
     @Says("-2: by none;")
@@ -298,6 +308,9 @@ public final class EdgeChanceTest {
                 .due("mostGuard", 4).due("tune 2 16", 15).due("mostGuard", 5).due("tune 2 6", 16).due("mostGuard", 3)
                 .due("tune 2 0", 6).due("mostGuard", 5);
         Run.on("guard 5;" + text).due("tune 2 12", 10).idle("mostGuard", 1).due("count 2", 5).due("hits 2", 1);
+        // CROWDS and what isn't RIGHT don't matter.
+        Run.on(CROWD + "5;").due("clean", 0).due("mostGuard", 5);
+        Run.on("user a 0 0 1 1;fixed a 5;").due("clean", 0).due("mostGuard", 5);
     }
 
     @Says("-2: by none.")

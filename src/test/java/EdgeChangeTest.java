@@ -484,6 +484,9 @@ public final class EdgeChangeTest {
         run.due("back", 2).channels(5, 20).due("user 0 1", 1).due("user 1 1", 20).due("user 0 6", 255)
                 .due("user 1 6", 2)
                 .due("blocked 9", 1).due("blocked 3", 1).due("blocked 10", 0).due("count 5", 3);
+        // What was found since is gone as well.
+        Run.on(PAIR).due("keep", 0).due("complete", 3).channels(1, 2).due("back", 0).channels(0, 0);
+        Run.on(PAIR + "fixed a 5;fixed b 5;").due("keep", 2).due("mend", 1).channels(1, 5).due("back", 2).channels(5, 5);
     }
 
     @Says("(nothing to undo then; it stays):")

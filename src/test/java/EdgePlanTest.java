@@ -126,6 +126,9 @@ public final class EdgePlanTest {
         Run.on(trio("user z 0 0 31 31;user u 0 0 6 6;", 50)
                 + "fixed z 31;fixed x 60;fixed y 55;slots u 1;slots x 3;slots y 2;")
                 .idle("mended", -2).due("tune 1 6", 0).due("mended", 12);
+        Run.on(trio("user u 0 0 6 6;user z 0 0 31 31;", 50)
+                + "fixed z 31;fixed x 60;fixed y 55;slots u 1;slots x 3;slots y 2;")
+                .idle("mended", -2).due("tune 0 6", 0).due("mended", 12);
         // All six must go.
         Run.on("orders 0;user a 0 0 1 1;user b 0 0 2 2;user c 0 0 3 3;user d 0 0 4 4;user e 0 0 5 5;user f 0 0 6 6;"
                 + "fixed a 2;fixed b 3;fixed c 4;fixed d 5;fixed e 6;fixed f 1;").due("mend", 63)

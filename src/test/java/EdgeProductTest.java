@@ -197,6 +197,28 @@ public final class EdgeProductTest {
 
     // ---- HITS
 
+    @Says({"PRODUCTS, of USERS of one SITE", "HITS a USER with a CHANNEL who isn't in it"})
+    static void terms_usersThatAreNotRightMakeProductsAndAreHit() {
+        // All are beyond their stretches; all are on BLOCKED CHANNELS, and what they make is, too.
+        for (String text : new String[] {SECOND.replace(" 1 30;", " 30 30;"), SECOND + "block 1 30;"}) {
+            Run run = Run.on(text).due("user 0 5", 0).due("user 1 5", 0).due("user 2 5", 0);
+            run.row("products", 6, 6, 3, 0).row("hits", 1, 1, 1).due("hitBy 0 0", 5).due("hitBy 1 0", 4)
+                    .due("hitBy 2 0", 0).row("when", 255, 255, 255).row("clearance", 0, 0, 0);
+            run.row("bySort 0", 3, 3, 1).row("bySort 1", 3, 3, 2).due("worst", 0).row("rank", 0, 1, 2).due("loudest", 0)
+                    .row("nearest", 1, 0, 1);
+        }
+    }
+
+    @Says({"PRODUCTS, of USERS of one SITE", "HITS a USER with a CHANNEL who isn't in it"})
+    static void terms_usersThatCrowdMakeProductsAndAreHit() {
+        // a's 4 and b's 6 are too near; that is no HIT.
+        Run.on("space 3;" + SECOND).row("products", 6, 6, 3, 1).row("hits", 1, 1, 1).row("when", 255, 255, 255)
+                .row("clearance", 0, 0, 0).row("bySort 0", 3, 3, 1).row("bySort 1", 3, 3, 2).due("worst", 0)
+                .row("rank", 0, 1, 2).due("loudest", 0).row("nearest", 1, 0, 1);
+        Run.on(CROWD + "5;").row("products", 0, 0, 0, 1).row("hits", 0, 0).row("when", 0, 0).row("clearance", -2, -2)
+                .due("worst", -2).due("loudest", -2);
+    }
+
     @Says("A PRODUCT that is HEARD HITS")
     static void terms_onlyWhatIsHeardHits() {
         for (int site = 0; site < 3; site++) {
@@ -696,6 +718,9 @@ public final class EdgeProductTest {
         // Whatever space is told; it stays.
         Run.on("space 20;" + CROWD + "8;").idle("mostSpace", 3).due("count 3", 20).due("crowds 0", 2);
         Run.on(CROWD + "8;user c 0 0 1 30;fixed c 10;").due("mostSpace", 2);
+        // HITS and what isn't RIGHT don't matter.
+        Run.on(SECOND).due("products 2", 3).due("mostSpace", 2);
+        Run.on(CROWD.replace(" 1 30;", " 30 30;") + "8;").due("clean", 0).due("mostSpace", 3);
     }
 
     @Says("-2: by none.")

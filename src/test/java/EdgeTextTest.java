@@ -677,6 +677,9 @@ public final class EdgeTextTest {
         run.tell("fixed a 1;", -1).due("fault 0", 4).tell("seed 1;seed 1;", -1).due("fault 0", 3);
         run.tell("@", -1).due("fault 0", 1).due("fault 1", 0).tell("seed 1;", 1).due("fault 0", 0).due("fault 1", -1);
         run.due("text 700", -2).due("fault 0", 0).due("fault 1", -1);
+        // Nothing but a text changes it.
+        Run.fresh().tell("guard 6;", -1).feed("seed 1;").due("block 1", 1).due("undo", 0).due("keep", 0).due("back", 0)
+                .due("complete", 0).due("mend", 0).due("fault 0", 2).due("fault 1", 6);
     }
 
     @Says("1: its place (NONE without).")
